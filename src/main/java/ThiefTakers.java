@@ -37,7 +37,7 @@ public final class ThiefTakers {
     private Town town = new Town();
     /** A text is read into this one, so that a text with a fault leaves the town as it is. */
     private Town spare = new Town();
-    private final Reader reader = new Reader(spare);
+    private final Reader reader = new Reader();
     private final Night now = new Night();
     private final Night image = new Night();
     private boolean imaged = false;
@@ -45,7 +45,7 @@ public final class ThiefTakers {
     private final Night played = new Night();
     private final Streets streets = new Streets();
     private final Streets otherStreets = new Streets();
-    private final Hours hours = new Hours(town, streets, played);
+    private final Hours hours = new Hours();
     private final Chase chase = new Chase();
     private final Sets sets = new Sets();
     private final Facts facts = new Facts();
@@ -336,11 +336,11 @@ public final class ThiefTakers {
         return chase.roundsFrom(rowOf(guards), corner);
     }
 
-    /** The corners of the guards as decimal digits, the first guard's in front. */
+    /** The guards' corners as the digits of a number with as many kinds as corners, the first guard's in front. */
     private int rowOf(int guards) {
         int row = 0;
         for (int guard = 0; guard < town.guards; guard++) {
-            row = (guards >> guard & 1) == 1 ? row * MOST_CORNERS + now.guardAt[guard] : row;
+            row = (guards >> guard & 1) == 1 ? row * town.corners + now.guardAt[guard] : row;
         }
         return row;
     }
@@ -616,7 +616,7 @@ public final class ThiefTakers {
             return NONE;
         }
         playFromText();
-        return facts.boldsOf(thief, hours, town.start);
+        return facts.boldsOf(thief, hours, town.start, facts.lastHour());
     }
 
     private void playFromText() {
@@ -629,8 +629,7 @@ public final class ThiefTakers {
             return NONE;
         }
         playFromText();
-        int bolds = facts.boldsOf(thief, hours, town.start);
-        facts.chooseQuestion(thief, bolds, hours, town.start);
+        facts.chooseQuestion(facts.boldsOf(thief, hours, town.start, FACT_HOURS));
         return what == 0 ? facts.askHour : facts.leftAtWorst;
     }
 
@@ -812,7 +811,7 @@ public final class ThiefTakers {
         Tokens() {
             for (int k = 0; k < KEYS * LETTERS && k < LANGUAGE.length(); k++) {
                 int letter = LANGUAGE.charAt(k) & 31;
-                keys[k / LETTERS] |= letter << 5 * (LETTERS - 1 - k % LETTERS);
+                keys[k / LETTERS] |= letter << (5 * (LETTERS - 1 - k % LETTERS));
             }
         }
 
@@ -845,7 +844,7 @@ public final class ThiefTakers {
         private void takeWord() {
             while (at < length && bytes[at] >= 'a' && bytes[at] <= 'z') {
                 int behind = LETTERS - 1 - (at - place);
-                value |= behind < 0 ? 0 : bytes[at] - 'a' + 1 << 5 * behind;
+                value |= behind < 0 ? 0 : (bytes[at] - 'a' + 1) << (5 * behind);
                 at++;
             }
             kind = at - place > LETTERS ? BAD : WORD;
@@ -930,7 +929,7 @@ public final class ThiefTakers {
         private static final int PRODUCT_LEVEL = 5;
 
         private final Tokens tokens = new Tokens();
-        private Town town;
+        private Town town = new Town();
         /** Signs and brackets of a law whose right side or end is still to come. */
         private final int[] pending = new int[MOST_KNOTS + MOST_OPEN];
         private int pendingMany = 0;
@@ -940,10 +939,6 @@ public final class ThiefTakers {
         int fault = 0;
         int faultPlace = NONE;
         int lines = 0;
-
-        Reader(Town first) {
-            town = first;
-        }
 
         boolean readText(byte[] bytes, int length, Town into) {
             town = into;
@@ -1730,20 +1725,15 @@ public final class ThiefTakers {
         static final int ALL_HOLD = 2;
         static final int NONE_HOLDS = 3;
 
-        private Town town;
-        Streets streets;
-        private Night night;
+        /** These are empty ones until setUp has named those that are meant. */
+        private Town town = new Town();
+        Streets streets = new Streets();
+        private Night night = new Night();
         int grips = AS_IT_GOES;
         /** The guard who doesn't walk his beat, if one is to stay. */
         int stayer = NONE;
         boolean stirring = true;
         private final long[] names = new long[Tokens.NAMES];
-
-        Hours(Town firstTown, Streets firstStreets, Night firstNight) {
-            town = firstTown;
-            streets = firstStreets;
-            night = firstNight;
-        }
 
         void setUp(Town newTown, Streets newStreets, Night newNight, int newGrips) {
             town = newTown;
@@ -1858,7 +1848,7 @@ public final class ThiefTakers {
         }
 
         private long draw() {
-            night.lastDrawn = night.lastDrawn * 1103515245L + 12345L & 0x7fffffffL;
+            night.lastDrawn = (night.lastDrawn * 1103515245L + 12345L) & 0x7fffffffL;
             return night.lastDrawn / 65536L;
         }
 
@@ -1899,20 +1889,22 @@ public final class ThiefTakers {
         }
     }
 
-    /** The chase of one who sees all, solved from its end back for all places of so many guards at once. */
+    /** The chase of one who sees all, solved from its end back for all rows of so many guards at once. */
     private static final class Chase {
         static final int NEVER = Integer.MAX_VALUE;
-        private static final int ROWS = 1000;
+        private static final int ROWS = MOST_CORNERS * MOST_CORNERS * MOST_CORNERS;
 
         private int corners = 0;
         /** Where one may be behind a turn: his corner and those next to it. */
         private final int[] turns = new int[MOST_CORNERS];
         /** The number of guards for which the rows below are solved; 0: they are not. */
-        private int solvedGuards = 0;
-        private int rows = 1;
-        /** For each row of guards' corners: where one is taken sooner or later. */
+        private int guards = 0;
+        private int rows = 0;
+        /** For each row of guards: where they are. */
+        private final int[] held = new int[ROWS];
+        /** For each row of guards, their turn being next: where one is taken by the round that is solved. */
         private final int[] lost = new int[ROWS];
-        private final int[] behindGuards = new int[ROWS];
+        private final int[] behindTurn = new int[ROWS];
         private final int[] spread = new int[ROWS];
         private final int[] rounds = new int[ROWS * MOST_CORNERS];
         private boolean postsFound = false;
@@ -1929,18 +1921,17 @@ public final class ThiefTakers {
             }
             corners = streets.corners;
             if (!fits) {
-                solvedGuards = 0;
+                guards = 0;
                 postsFound = false;
             }
         }
 
-        void solve(Streets streets, int guards) {
+        void solve(Streets streets, int many) {
             fitTo(streets);
-            if (solvedGuards == guards) {
+            if (guards == many || corners < 1) {
                 return;
             }
-            solvedGuards = guards;
-            rows = guards == 1 ? 10 : guards == 2 ? 100 : ROWS;
+            guards = many;
             layOut();
             boolean more = true;
             for (int round = 1; round <= ROWS * MOST_CORNERS && more; round++) {
@@ -1949,39 +1940,37 @@ public final class ThiefTakers {
         }
 
         private void layOut() {
-            Arrays.fill(rounds, 0, rows * MOST_CORNERS, NEVER);
-            for (int row = 0; row < rows; row++) {
-                lost[row] = cornersOf(row);
-                for (int corner = 0; corner < corners; corner++) {
-                    if ((lost[row] >> corner & 1) == 1) {
-                        rounds[row * MOST_CORNERS + corner] = 0;
-                    }
+            rows = 1;
+            held[0] = 0;
+            for (int guard = 0; guard < guards && guard < MOST_GUARDS; guard++) {
+                // Row k of the longer rows is row k / corners of the shorter ones with one more guard.
+                for (int row = rows * corners - 1; row >= 0; row--) {
+                    held[row] = held[row / corners] | 1 << row % corners;
                 }
+                rows *= corners;
             }
-        }
-
-        private int cornersOf(int row) {
-            int bits = 0;
-            for (int unit = 1; unit < rows; unit *= MOST_CORNERS) {
-                bits |= 1 << row / unit % MOST_CORNERS;
+            Arrays.fill(rounds, 0, rows * corners, NEVER);
+            for (int row = 0; row < rows; row++) {
+                lost[row] = 0;
+                noteLost(row, held[row], 0);
             }
-            return bits;
         }
 
         private boolean solveRound(int round) {
             for (int row = 0; row < rows; row++) {
-                behindGuards[row] = lostOnTurn(row);
+                behindTurn[row] = lostOnTurn(row);
             }
-            for (int unit = 1; unit < rows; unit *= MOST_CORNERS) {
+            int unit = 1;
+            for (int guard = 0; guard < guards; guard++) {
                 spreadOneGuard(unit);
+                unit *= corners;
             }
             boolean more = false;
             for (int row = 0; row < rows; row++) {
-                int fresh = behindGuards[row] & ~lost[row];
+                int fresh = behindTurn[row] & ~lost[row];
                 if (fresh != 0) {
                     more = true;
-                    lost[row] |= fresh;
-                    noteRounds(row, fresh, round);
+                    noteLost(row, fresh, round);
                 }
             }
             return more;
@@ -1989,7 +1978,7 @@ public final class ThiefTakers {
 
         /** Where one is taken though it is his turn: wherever he goes from there, he is lost. */
         private int lostOnTurn(int row) {
-            int bits = cornersOf(row);
+            int bits = held[row];
             for (int corner = 0; corner < corners; corner++) {
                 bits |= (turns[corner] & ~lost[row]) == 0 ? 1 << corner : 0;
             }
@@ -1998,39 +1987,43 @@ public final class ThiefTakers {
 
         /** Guards go at once, but none hinders another: so it may be worked out guard by guard. */
         private void spreadOneGuard(int unit) {
-            if (unit < 1) {
+            if (unit < 1 || corners < 1) {
                 return;
             }
             for (int row = 0; row < rows; row++) {
-                int at = row / unit % MOST_CORNERS;
+                int at = row / unit % corners;
                 int bits = 0;
                 for (int to = 0; to < corners; to++) {
-                    bits |= (turns[at] >> to & 1) == 1 ? behindGuards[row + (to - at) * unit] : 0;
+                    bits |= (turns[at] >> to & 1) == 1 ? behindTurn[row + (to - at) * unit] : 0;
                 }
                 spread[row] = bits;
             }
-            System.arraycopy(spread, 0, behindGuards, 0, rows);
+            System.arraycopy(spread, 0, behindTurn, 0, rows);
         }
 
-        private void noteRounds(int row, int fresh, int round) {
+        private void noteLost(int row, int fresh, int round) {
+            lost[row] |= fresh;
             for (int corner = 0; corner < corners; corner++) {
                 if ((fresh >> corner & 1) == 1) {
-                    rounds[row * MOST_CORNERS + corner] = round;
+                    rounds[row * corners + corner] = round;
                 }
             }
         }
 
         int roundsFrom(int row, int corner) {
-            return rounds[row * MOST_CORNERS + corner];
+            return rounds[row * corners + corner];
         }
 
         /** The corner in a row that has so many corners behind it. */
         int cornerIn(int row, int behind) {
+            if (corners < 1) {
+                return NONE;
+            }
             int corner = row;
             for (int k = 0; k < behind; k++) {
-                corner /= MOST_CORNERS;
+                corner /= corners;
             }
-            return corner % MOST_CORNERS;
+            return corner % corners;
         }
 
         /** The first row to which the guards may go so that he is taken as soon as may be. */
@@ -2045,9 +2038,8 @@ public final class ThiefTakers {
         }
 
         private boolean isTurn(int from, int to) {
-            for (int unit = 1; unit < rows; unit *= MOST_CORNERS) {
-                int corner = to / unit % MOST_CORNERS;
-                if (corner >= corners || (turns[from / unit % MOST_CORNERS] >> corner & 1) == 0) {
+            for (int behind = 0; behind < guards; behind++) {
+                if ((turns[cornerIn(from, behind)] >> cornerIn(to, behind) & 1) == 0) {
                     return false;
                 }
             }
@@ -2055,10 +2047,7 @@ public final class ThiefTakers {
         }
 
         private int roundsOnTurn(int row, int corner) {
-            if (roundsFrom(row, corner) == 0) {
-                return 0;
-            }
-            return roundsFrom(row, safest(row, corner));
+            return roundsFrom(row, corner) == 0 ? 0 : roundsFrom(row, safest(row, corner));
         }
 
         /** Where one goes from the corner to be taken as late as may be. */
@@ -2081,10 +2070,10 @@ public final class ThiefTakers {
             }
             postsFound = true;
             posts = 0;
-            for (int guards = 1; guards <= MOST_GUARDS && posts == 0; guards++) {
-                solve(streets, guards);
+            for (int many = 1; many <= MOST_GUARDS && posts == 0; many++) {
+                solve(streets, many);
                 postRow = firstPostRow();
-                posts = postRow == NONE ? 0 : guards;
+                posts = postRow == NONE ? 0 : many;
             }
         }
 
@@ -2142,7 +2131,7 @@ public final class ThiefTakers {
         private boolean solveAround(int rest, int all, int n, int night) {
             boolean more = false;
             int others = all & ~rest;
-            for (int looked = others; looked >= 0; looked = looked == 0 ? NONE : looked - 1 & others) {
+            for (int looked = others; looked >= 0; looked = looked == 0 ? NONE : (looked - 1) & others) {
                 if (two[rest | looked] == UNSOLVED && Integer.bitCount(looked) <= n) {
                     two[rest | looked] = night;
                     more = true;
@@ -2279,19 +2268,29 @@ public final class ThiefTakers {
             return sights;
         }
 
-        int boldsOf(int thief, Hours hours, Night start) {
+        /** The bolds by which all that is known is so; what one had until that hour is noted on the way. */
+        int boldsOf(int thief, Hours hours, Night start, int until) {
             int sights = standing();
             int bolds = 0;
             for (int bold = 0; bold < BOLD_KINDS; bold++) {
                 hours.restart(start, thief, bold);
                 boolean fits = true;
-                for (int hour = 1; hour <= FACT_HOURS && fits && sights != 0; hour++) {
+                for (int hour = 1; hour <= until && hour <= FACT_HOURS && fits; hour++) {
                     hours.pass();
+                    hads[bold * (FACT_HOURS + 1) + hour] = hours.hadOfThief(thief);
                     fits = areSo(sights, hour, hours);
                 }
                 bolds |= fits ? 1 << bold : 0;
             }
             return bolds;
+        }
+
+        int lastHour() {
+            int last = 0;
+            for (int fact = 0; fact < noted; fact++) {
+                last = strikes[fact] == NOTHING ? Math.max(last, hourOf[fact]) : last;
+            }
+            return last;
         }
 
         /** Whether the sights of this hour are as it went. */
@@ -2305,16 +2304,8 @@ public final class ThiefTakers {
             return true;
         }
 
-        void chooseQuestion(int thief, int bolds, Hours hours, Night start) {
-            for (int bold = 0; bold < BOLD_KINDS; bold++) {
-                if ((bolds >> bold & 1) == 1) {
-                    hours.restart(start, thief, bold);
-                    for (int hour = 1; hour <= FACT_HOURS; hour++) {
-                        hours.pass();
-                        hads[bold * (FACT_HOURS + 1) + hour] = hours.hadOfThief(thief);
-                    }
-                }
-            }
+        /** The best hour to ask how much one had, whose bolds have just been found until the last hour. */
+        void chooseQuestion(int bolds) {
             askHour = 1;
             leftAtWorst = worstLeft(1, bolds);
             for (int hour = 2; hour <= FACT_HOURS; hour++) {

@@ -30,10 +30,13 @@ public final class ComparedWithNaiveTest {
             plain.setAccessible(true);
             PLAIN.add(plain);
         }
-        int runs = args.length > 0 ? Integer.parseInt(args[0]) : 400;
+        int runs = args.length > 0 ? Integer.parseInt(args[0]) : 250;
         int firstSeed = args.length > 1 ? Integer.parseInt(args[1]) : 1;
         for (int seed = firstSeed; seed < firstSeed + runs && wrong < 20; seed++) {
-            new Run(seed).play();
+            new Run(seed, 5, 8).play(120);
+        }
+        for (int seed = firstSeed; seed < firstSeed + runs / 20 && wrong < 20; seed++) {
+            new Run(-seed, 10, 26).play(120);
         }
         for (int seed = firstSeed; seed < firstSeed + runs * 50 && wrong < 20; seed++) {
             brokenText(new Random(seed));
@@ -51,17 +54,21 @@ public final class ComparedWithNaiveTest {
         final Naive naive = new Naive();
         final StringBuilder told = new StringBuilder();
 
-        Run(int seed) {
+        final int mostCorners;
+        final int mostLanes;
+
+        Run(int seed, int mostCorners, int mostLanes) {
             this.seed = seed;
             this.random = new Random(seed);
+            this.mostCorners = mostCorners;
+            this.mostLanes = mostLanes;
         }
 
-        void play() throws Exception {
-            tell(town(random));
-            int calls = 120;
+        void play(int calls) throws Exception {
+            tell(town(random, mostCorners, mostLanes));
             for (int k = 0; k < calls && wrong < 20; k++) {
-                if (random.nextInt(60) == 0) {
-                    tell(random.nextBoolean() ? town(random) : "corner zz 1;");
+                if (random.nextInt(100) == 0) {
+                    tell(random.nextBoolean() ? town(random, mostCorners, mostLanes) : "corner zz 1;");
                 } else {
                     call(random.nextInt(FACE.size()));
                 }
@@ -71,7 +78,9 @@ public final class ComparedWithNaiveTest {
         void tell(String text) throws Exception {
             byte[] bytes = text.getBytes(StandardCharsets.ISO_8859_1);
             told.append(text).append('\n');
-            compare("text(0)", real.text(0), naive.text(0));
+            if (naive.count(1) == 0) {
+                compare("text(0)", real.text(0), naive.text(0));
+            }
             feedAll(real, naive, bytes);
             compare("text(" + bytes.length + ")", real.text(bytes.length), naive.text(bytes.length));
         }
@@ -88,18 +97,65 @@ public final class ComparedWithNaiveTest {
 
         void call(int which) throws Exception {
             Method m = FACE.get(which);
-            if (m.getName().equals("text") && random.nextInt(10) > 0 || m.getName().equals("feed") && random.nextInt(5) > 0) {
+            String name = m.getName();
+            if (name.equals("text") && random.nextInt(20) > 0 || name.equals("feed") && random.nextInt(5) > 0
+                    || name.equals("go") && random.nextInt(3) > 0) {
                 return;
             }
             Class<?>[] types = m.getParameterTypes();
             Object[] args = new Object[types.length];
+            int[] bounds = boundsOf(name);
+            boolean wild = random.nextInt(5) == 0;
             for (int i = 0; i < args.length; i++) {
-                args[i] = types[i] == boolean.class ? (Object) random.nextBoolean() : (Object) number();
+                args[i] = types[i] == boolean.class ? (Object) (random.nextInt(4) == 0)
+                        : (Object) (wild || i >= bounds.length ? number() : random.nextInt(bounds[i]));
             }
-            if (m.getName().equals("tried") && random.nextInt(4) > 0) {
+            if (name.equals("tried") && random.nextInt(8) > 0) {
                 args[1] = (Integer) args[0] == 2 ? args[1] : 0;
             }
-            compare(m.getName() + Arrays.toString(args), answer(m, real, args), answer(PLAIN.get(which), naive, args));
+            compare(name + Arrays.toString(args), answer(m, real, args), answer(PLAIN.get(which), naive, args));
+        }
+
+        /** For each number of a call: below what most of the drawn ones are. */
+        int[] boundsOf(String name) {
+            int corners = Math.max(1, naive.count(0));
+            int lanes = Math.max(1, naive.count(1));
+            int guards = Math.max(1, naive.count(2));
+            int thieves = Math.max(1, naive.count(3));
+            int groups = 1 << guards;
+            switch (name) {
+                case "corner": return new int[] {corners, 5};
+                case "guard": return new int[] {guards, 3};
+                case "thief": return new int[] {thieves, 4};
+                case "lane": return new int[] {lanes, 4};
+                case "law": return new int[] {3, thieves, corners};
+                case "send": return new int[] {guards, corners};
+                case "bar": return new int[] {lanes};
+                case "drop": return new int[] {corners, 1000};
+                case "go": return new int[] {8};
+                case "ahead": return new int[] {20, 5, thieves};
+                case "caught": case "bolds": return new int[] {thieves};
+                case "far": case "wall": return new int[] {corners, corners};
+                case "way": return new int[] {corners, corners, 5};
+                case "reach": case "unseen": case "round": return new int[] {corners};
+                case "chase": case "flee": return new int[] {groups, corners};
+                case "firstGo": return new int[] {groups, corners, guards};
+                case "post": return new int[] {4};
+                case "sweep": case "look": return new int[] {corners + 1};
+                case "could": return new int[] {thieves, 12};
+                case "drunk": return new int[] {corners, corners, 5, 2};
+                case "match": return new int[] {5};
+                case "rests": return new int[] {thieves, thieves};
+                case "rest": return new int[] {thieves, thieves, 3};
+                case "holds": return new int[] {7, 2};
+                case "see": return new int[] {12, thieves, corners};
+                case "strike": case "known": return new int[] {1 + naive.count(10)};
+                case "ask": return new int[] {thieves, 2};
+                case "chance": return new int[] {Integer.MAX_VALUE, 20, thieves};
+                case "tried": return new int[] {5, guards, 30};
+                case "count": return new int[] {13};
+                default: return new int[0];
+            }
         }
 
         int number() {
@@ -136,7 +192,7 @@ public final class ComparedWithNaiveTest {
     }
 
     private static void brokenText(Random random) {
-        StringBuilder text = new StringBuilder(random.nextBoolean() ? town(random) : lawOnly(random));
+        StringBuilder text = new StringBuilder(random.nextBoolean() ? town(random, 5, 8) : lawOnly(random));
         int changes = random.nextInt(3);
         for (int k = 0; k < changes && text.length() > 0; k++) {
             int at = random.nextInt(text.length());
@@ -172,7 +228,7 @@ public final class ComparedWithNaiveTest {
     static String expression(Random random, int depth) {
         if (depth == 0 || random.nextInt(5) == 0) {
             return random.nextBoolean() ? "" + random.nextInt(random.nextInt(4) == 0 ? 10000 : 12)
-                    : WORDS[12 + random.nextInt(7)];
+                    : random.nextInt(3) == 0 ? "bold" : WORDS[12 + random.nextInt(7)];
         }
         switch (random.nextInt(9)) {
             case 0: return "not " + expression(random, depth - 1);
@@ -185,22 +241,24 @@ public final class ComparedWithNaiveTest {
         }
     }
 
-    static String town(Random random) {
+    static String town(Random random, int mostCorners, int mostLanes) {
         StringBuilder text = new StringBuilder();
-        int corners = 1 + random.nextInt(5);
+        int corners = mostCorners - random.nextInt(Math.min(5, mostCorners));
         for (int i = 0; i < corners; i++) {
             text.append("corner ").append((char) ('a' + i)).append(' ').append(random.nextInt(10)).append(' ')
                     .append(random.nextInt(100)).append(";");
         }
-        int lanes = random.nextInt(8);
+        int tries = random.nextInt(mostLanes);
+        int lanes = 0;
         String used = "";
-        for (int i = 0; i < lanes && corners > 1; i++) {
+        for (int i = 0; i < tries && lanes < 20 && corners > 1; i++) {
             int a = random.nextInt(corners);
             int b = (a + 1 + random.nextInt(corners - 1)) % corners;
             boolean steps = random.nextInt(3) == 0;
             String key = steps ? "s" + a + b + " " : "l" + Math.min(a, b) + Math.max(a, b) + " ";
             if (!used.contains(key)) {
                 used += key;
+                lanes++;
                 text.append(steps ? "steps " : "lane ").append((char) ('a' + a)).append(' ').append((char) ('a' + b)).append(";");
             }
         }
