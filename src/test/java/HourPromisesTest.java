@@ -148,6 +148,14 @@ public final class HourPromisesTest {
         Told.due("3=4", worth("3=4"), 0);
         Told.due("3<>3", worth("3<>3"), 0);
         Told.due("3<>4", worth("3<>4"), 1);
+        Told.due("4<>3", worth("4<>3"), 1);
+        Told.due("4<3", worth("4<3"), 0);
+        Told.due("4=3", worth("4=3"), 0);
+        Told.due("3>4", worth("3>4"), 0);
+        Told.due("5>=4", worth("5>=4"), 1);
+        Told.due("2<=3", worth("2<=3"), 1);
+        Told.due("as deep as may be", worth("((((((((" + "not ".repeat(63) + "1))))))))"), 0);
+        Told.due("as deep as may be", worth("((((((((" + "not ".repeat(62) + "1))))))))"), 1);
         Told.due("3>=4", worth("3>=4"), 0);
         Told.due("4>=4", worth("4>=4"), 1);
         Told.due("4>3", worth("4>3"), 1);
@@ -180,6 +188,13 @@ public final class HourPromisesTest {
         Told.due("0 times", worth("0*(" + trillion + ")"), 0);
         Told.due("times -1", worth(trillion + "*(0-1)"), -1000000000000L);
         Told.due("too far on the way", worth(trillion + "*2-" + trillion), Long.MIN_VALUE);
+        Told.due("summed up to it", worth(trillion + "-1+1"), 1000000000000L);
+        Told.due("less than less", worth(trillion + "-1-(0-1)"), 1000000000000L);
+        Told.due("and one more", worth(trillion + "-(0-1)"), Long.MIN_VALUE);
+        Told.due("summed down to it", worth("0-" + trillion + "+1+(0-1)"), -1000000000000L);
+        Told.due("and one more", worth("0-" + trillion + "+(0-1)"), Long.MIN_VALUE);
+        Told.due("down and up", worth("0-" + trillion + "+(" + trillion + ")"), 0);
+        Told.due("up and down", worth(trillion + "-(" + trillion + ")"), 0);
         Told.due("1/0", worth("1/0"), Long.MIN_VALUE);
         Told.due("0/0", worth("0/0"), Long.MIN_VALUE);
         Told.due("1 or 1/0", worth("1 or 1/0"), Long.MIN_VALUE);
@@ -252,6 +267,12 @@ public final class HourPromisesTest {
         Told.due("behind 9800", x.go(1), -1);
         Told.due("behind 9800, none", x.go(0), -1);
         Told.due("which it is", x.count(5), 10000);
+        x = Told.of(RUN);
+        for (int k = 1; k <= 49; k++) {
+            x.go(200);
+        }
+        Told.due("the first behind it", x.go(1), 9801);
+        Told.due("is refused", x.go(1), -1);
     }
 
     private static void beats() {
@@ -511,6 +532,7 @@ public final class HourPromisesTest {
         Told.due("steps back", Told.of("corner a 0 9;corner b 1 0;steps a b;thief t b 1;law dread light;").tried(4, 0, 1), 2);
         Told.due("what 5", x.tried(5, 0, 1), -1);
         Told.due("what -1", x.tried(-1, 0, 1), -1);
+        Told.due("n 200", Told.of(RUN).tried(0, 0, 200), 9);
         Told.due("n 201", x.tried(0, 0, 201), -1);
         Told.due("n -1", x.tried(0, 0, -1), -1);
         Told.due("i 1", x.tried(0, 1, 1), -1);
@@ -553,6 +575,22 @@ public final class HourPromisesTest {
         x.drop(2, 1);
         x.go(1);
         Told.due("an hour went by", x.undo(), -1);
+        x = Told.of(RUN);
+        x.drop(3, 1);
+        x.bar(0);
+        x.bar(0);
+        for (int k = 0; k < 9; k++) {
+            x.drop(k % 4, 1);
+            x.send(0, 1 - k % 2);
+        }
+        Told.due("20 of 21", x.count(12), 20);
+        for (int k = 19; k >= 0; k--) {
+            Told.due("undo one of 20 kinds", x.undo(), k);
+        }
+        Told.due("all but the first: guard", x.guard(0, 0), 0);
+        Told.due("all but the first: lane", x.count(9), 0);
+        Told.due("all but the first: loot", x.count(7), 68);
+        Told.due("all but the first: loot", x.corner(3, 1), 8);
         x = Told.of(RUN);
         for (int k = 0; k < 11; k++) {
             x.drop(0, 999);
@@ -598,6 +636,14 @@ public final class HourPromisesTest {
         Told.due("keep in place of it", x.keep(), 3);
         x.go(1);
         Told.due("the new one", x.back(), 3);
+        x = Told.of("corner a 0 9;guard g a;thief t a 0;");
+        x.keep();
+        x.go(1);
+        Told.due("one caught", x.guard(0, 2), 1);
+        x.back();
+        Told.due("none caught", x.guard(0, 2), 0);
+        Told.due("he is free", x.thief(0, 3), -2);
+        Told.due("nobody is caught", x.count(6), 0);
     }
 
     private static int state(ThiefTakers x) {

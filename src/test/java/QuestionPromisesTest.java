@@ -511,5 +511,10 @@ public final class QuestionPromisesTest {
         Told.due("all are left", x.ask(0, 1), 10);
         x = Told.of("corner a 0 9;thief s a 1;");
         Told.due("bold 8 and 9 take all: in the first hour two are left", x.ask(0, 1), 2);
+        x = Told.of("corner a 0 999;thief s a 1;law take bold*(hour=1);");
+        Told.due("in the second hour", x.ask(0, 0), 2);
+        x = Told.of("corner a 0 9;corner b 0 0;lane a b;thief s a 1;law stir bold;law dread loot;");
+        x.see(1, 0, 0, true);
+        Told.due("0 alone", x.ask(0, 1), 1);
     }
 }

@@ -11,6 +11,7 @@ public final class TextPromisesTest {
         tooMany();
         expressions();
         knots();
+        textBehindText();
         toldAlready();
         notTold();
         named();
@@ -26,6 +27,9 @@ public final class TextPromisesTest {
         Told.due("new: text(1)", x.text(1), -2);
         Told.due("new: fault(0)", x.fault(0), 0);
         Told.due("new: fault(1)", x.fault(1), -1);
+        Told.due("new: undo()", x.undo(), -1);
+        Told.due("new: back()", x.back(), -1);
+        Told.due("new: keep()", x.keep(), 0);
         Told.due("new: feed", x.feed(0, 0, 0, 0, 0), 20);
     }
 
@@ -247,6 +251,38 @@ public final class TextPromisesTest {
         Told.fault(2, "law dread " + sixtyThree + ";law take 1;law stir ^1;");
         ThiefTakers x = Told.of("law dread (light+2)*(far-1);law take not bold>=3 and 1 or 0;law stir (((7)));");
         Told.due("knots: brackets are none", x.count(4), 7 + 8 + 1);
+    }
+
+    /** Nothing of a text is left in those behind it, be they good or not. */
+    private static void textBehindText() {
+        ThiefTakers x = new ThiefTakers();
+        Told.due("a fault", Told.tell(x, "grip 5;seed 7;corner a 1 1;corner b 1 1;lane a b;law take ((1+2*3"), -1);
+        Told.due("none behind it", Told.tell(x, "grip 6;seed 8;corner a 1 1;law take 1;"), 4);
+        Told.due("fault(0)", x.fault(0), 0);
+        Told.due("fault(1)", x.fault(1), -1);
+        Told.due("open brackets are forgotten", Told.tell(x, "law take 1);"), -1);
+        Told.due("their place", x.fault(1), 10);
+        String long40 = "1" + "+1".repeat(20);
+        for (int k = 0; k < 5; k++) {
+            Told.due("knots anew", Told.tell(x, "corner a 1 1;thief t a 0;law take " + long40 + "+" + k + ";"), 3);
+            Told.due("their value", x.law(1, 0, 0), 21 + k);
+        }
+        String numbers = "corner a 1 1;guard g a;thief t a 0;grip 50;";
+        for (int k = 0; k < 4; k++) {
+            // From seed 1 the first number is 16838, from seed 0 it is 0.
+            Told.due("seed 1", Told.tell(x, numbers.replace("50", "38") + "seed 1;"), 5);
+            x.go(1);
+            Told.due("38 isn't below 38", x.count(6), 0);
+            if (k % 2 == 1) {
+                Told.tell(x, "");
+            }
+            Told.due("no seed", Told.tell(x, numbers.replace("50", "1")), 4);
+            x.go(1);
+            Told.due("0 is below 1", x.count(6), 1);
+        }
+        Told.due("seed 1", Told.tell(x, numbers.replace("50", "39") + "seed 1;"), 5);
+        x.go(1);
+        Told.due("38 is below 39", x.count(6), 1);
     }
 
     private static void toldAlready() {
