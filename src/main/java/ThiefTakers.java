@@ -365,10 +365,17 @@ public final class ThiefTakers {
         if (rounds == 0) {
             return LACKING;
         }
-        if (guards == 0) {
-            return Integer.numberOfTrailingZeros(streets.nexts[corner] | 1 << corner);
+        return guards == 0 ? firstTurn(corner) : chase.safest(rowOf(guards), corner);
+    }
+
+    /** Where one goes or stays whom nobody chases: all is as good. */
+    private int firstTurn(int corner) {
+        for (int to = 0; to < corner; to++) {
+            if ((streets.nexts[corner] >> to & 1) == 1) {
+                return to;
+            }
         }
-        return chase.safest(rowOf(guards), corner);
+        return corner;
     }
 
     public int takers() {
@@ -791,8 +798,9 @@ public final class ThiefTakers {
         private static final int LETTERS = 6;
         private static final int BEYOND = 1000000;
         /** The words of the language in the order of the numbers above, six letters each. */
-        private static final String LANGUAGE =
-                "cornerlane  steps guard beat  thief grip  seed  law   dread take  stir  light far   loot  bold  had   guardshour  and   or    not   ";
+        private static final String LINE_WORDS =
+                "cornerlane  steps guard beat  thief grip  seed  law   dread take  stir  ";
+        private static final String LAW_WORDS = "light far   loot  bold  had   guardshour  and   or    not   ";
 
         /** Signs are their own bytes; those of two bytes have numbers that no byte has. */
         static final int AT_MOST = 256;
@@ -809,9 +817,15 @@ public final class ThiefTakers {
         int place = 0;
 
         Tokens() {
-            for (int k = 0; k < KEYS * LETTERS && k < LANGUAGE.length(); k++) {
-                int letter = LANGUAGE.charAt(k) & 31;
-                keys[k / LETTERS] |= letter << (5 * (LETTERS - 1 - k % LETTERS));
+            packWords(LINE_WORDS, 0);
+            packWords(LAW_WORDS, FIRST_NAME);
+        }
+
+        private void packWords(String words, int firstKey) {
+            for (int k = 0; k < words.length() && firstKey + k / LETTERS < KEYS; k++) {
+                // A blank has none of the five bits, as the document packs names.
+                int letter = words.charAt(k) & 31;
+                keys[firstKey + k / LETTERS] |= letter << (5 * (LETTERS - 1 - k % LETTERS));
             }
         }
 
@@ -1636,7 +1650,9 @@ public final class ThiefTakers {
 
         private void measureFrom(int from) {
             int row = from * MOST_CORNERS;
-            Arrays.fill(fars, row, row + MOST_CORNERS, NO_WAY);
+            for (int corner = 0; corner < corners; corner++) {
+                fars[row + corner] = NO_WAY;
+            }
             int seen = 0;
             int edge = 1 << from;
             for (int lanes = 0; lanes < MOST_CORNERS && edge != 0; lanes++) {
@@ -1949,7 +1965,9 @@ public final class ThiefTakers {
                 }
                 rows *= corners;
             }
-            Arrays.fill(rounds, 0, rows * corners, NEVER);
+            for (int k = 0; k < rows * corners; k++) {
+                rounds[k] = NEVER;
+            }
             for (int row = 0; row < rows; row++) {
                 lost[row] = 0;
                 noteLost(row, held[row], 0);

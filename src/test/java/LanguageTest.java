@@ -98,7 +98,7 @@ public final class LanguageTest {
             Told.due(imports.group(), Set.of("java.util.Arrays", "java.util.NoSuchElementException").contains(imports.group(1)), true);
         }
         Matcher calls = Pattern.compile("\\b(System|Math|Arrays|Integer|Long)\\.(\\w+)").matcher(code);
-        Set<String> library = Set.of("arraycopy", "min", "max", "fill", "bitCount", "numberOfTrailingZeros", "MAX_VALUE", "MIN_VALUE");
+        Set<String> library = Set.of("arraycopy", "min", "max", "fill", "bitCount", "MAX_VALUE", "MIN_VALUE");
         while (calls.find()) {
             Told.due(calls.group(), library.contains(calls.group(2)), true);
         }
