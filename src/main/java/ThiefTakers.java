@@ -23,6 +23,7 @@ public final class ThiefTakers {
     private static final int MOST_DEEDS = 20;
     private static final int MOST_BYTES = 700;
     private static final int MOST_LOOT = 9999;
+    private static final int LAST_HOUR = 9800;
     private static final int SETS = 1 << MOST_CORNERS;
     private static final int BOLD_KINDS = 10;
     private static final int FACT_HOURS = 60;
@@ -242,7 +243,7 @@ public final class ThiefTakers {
     }
 
     public int go(int n) {
-        if (n < 0 || n > 200 || now.hour > 9800) {
+        if (n < 0 || n > 200 || now.hour + n > LAST_HOUR) {
             return NONE;
         }
         hours.setUp(town, streets, now, Hours.BY_NUMBERS);

@@ -263,16 +263,31 @@ public final class HourPromisesTest {
         for (int k = 1; k <= 49; k++) {
             Told.due("go(200)", x.go(200), 200 * k);
         }
-        Told.due("at 9800", x.go(200), 10000);
-        Told.due("behind 9800", x.go(1), -1);
-        Told.due("behind 9800, none", x.go(0), -1);
-        Told.due("which it is", x.count(5), 10000);
-        x = Told.of(RUN);
-        for (int k = 1; k <= 49; k++) {
+        Told.due("it may be 9800", x.go(0), 9800);
+        Told.due("one behind 9800", x.go(1), -1);
+        Told.due("far behind 9800", x.go(200), -1);
+        Told.due("which it is", x.count(5), 9800);
+        goEndsBehindTheLast();
+    }
+
+    /** It is the hour at the end that may not lie behind 9800: then none at all goes by. */
+    private static void goEndsBehindTheLast() {
+        ThiefTakers x = Told.of(RUN);
+        for (int k = 1; k <= 48; k++) {
             x.go(200);
         }
-        Told.due("the first behind it", x.go(1), 9801);
-        Told.due("is refused", x.go(1), -1);
+        Told.due("go(58)", x.go(58), 9658);
+        x.drop(1, 5);
+        int loot = x.count(7);
+        int guardAt = x.guard(0, 0);
+        Told.due("would end at 9801", x.go(143), -1);
+        Told.due("would end at 9858", x.go(200), -1);
+        Told.due("none went by", x.count(5), 9658);
+        Told.due("the loot stays", x.count(7), loot);
+        Told.due("the guard stays", x.guard(0, 0), guardAt);
+        Told.due("no hour, so it can be undone", x.count(12), 1);
+        Told.due("ends at 9800", x.go(142), 9800);
+        Told.due("what is ahead has no last hour", x.ahead(200, 0, 0) >= 0 ? 1 : 0, 1);
     }
 
     private static void beats() {

@@ -769,7 +769,7 @@ final class Naive {
     }
 
     int go(int n) {
-        if (n < 0 || n > 200 || now.hour > 9800) {
+        if (n < 0 || n > 200 || now.hour + n > 9800) {
             return -1;
         }
         How how = new How();
