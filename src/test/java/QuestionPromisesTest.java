@@ -26,29 +26,11 @@ public final class QuestionPromisesTest {
         Told.end();
     }
 
-    /** So many corners a, b, .. without light and loot. */
-    private static String corners(int many) {
-        StringBuilder text = new StringBuilder();
-        for (int k = 0; k < many; k++) {
-            text.append("corner ").append((char) ('a' + k)).append(" 0 0;");
-        }
-        return text.toString();
-    }
-
-    /** Lanes told by pairs of letters. */
-    private static String lanes(String pairs) {
-        StringBuilder text = new StringBuilder();
-        for (String pair : pairs.split(" ")) {
-            text.append("lane ").append(pair.charAt(0)).append(' ').append(pair.charAt(1)).append(';');
-        }
-        return text.toString();
-    }
-
-    private static final String PETERSEN = corners(10) + lanes("ab bc cd de ea af bg ch di ej fh hj jg gi if");
+    private static final String PETERSEN = Towns.corners(10) + Towns.lanes("ab bc cd de ea af bg ch di ej fh hj jg gi if");
 
     /** Promise 19. */
     private static void reach() {
-        ThiefTakers x = Told.of(corners(4) + "steps a b;lane b c;");
+        ThiefTakers x = Told.of(Towns.corners(4) + "steps a b;lane b c;");
         Told.due("reach(0)", x.reach(0), 7);
         Told.due("reach(1)", x.reach(1), 6);
         Told.due("reach(3)", x.reach(3), 8);
@@ -60,12 +42,12 @@ public final class QuestionPromisesTest {
 
     /** Promise 20. */
     private static void parts() {
-        ThiefTakers x = Told.of(corners(5) + "steps a b;steps b c;steps c a;steps c d;");
+        ThiefTakers x = Told.of(Towns.corners(5) + "steps a b;steps b c;steps c a;steps c d;");
         Told.due("a ring, what it leads to, one alone", x.parts(), 3);
         x.bar(2);
         Told.due("no ring", x.parts(), 5);
         Told.due("none", new ThiefTakers().parts(), 0);
-        Told.due("one", Told.of(corners(10) + lanes("ab bc cd de ef fg gh hi ij")).parts(), 1);
+        Told.due("one", Told.of(Towns.corners(10) + Towns.lanes("ab bc cd de ef fg gh hi ij")).parts(), 1);
     }
 
     /** Promise 21. */
@@ -85,14 +67,14 @@ public final class QuestionPromisesTest {
         Told.due("corner -1", x.chase(1, -1), -1);
         Told.due("nobody has gone", x.guard(0, 0), 0);
         // A ring of four: one never takes him, two do.
-        x = Told.of(corners(4) + lanes("ab bc cd da") + "guard g a;guard h a;guard i b;");
+        x = Told.of(Towns.corners(4) + Towns.lanes("ab bc cd da") + "guard g a;guard h a;guard i b;");
         Told.due("one on a ring", x.chase(1, 2), -2);
         Told.due("two on a ring from one corner", x.chase(3, 2), 2);
         Told.due("three", x.chase(7, 3), 1);
         // He can't go where steps lead the other way.
-        x = Told.of(corners(3) + "steps a b;steps b c;guard g a;");
+        x = Told.of(Towns.corners(3) + "steps a b;steps b c;guard g a;");
         Told.due("along steps", x.chase(1, 2), 2);
-        x = Told.of(corners(3) + "steps b a;steps c b;guard g a;");
+        x = Told.of(Towns.corners(3) + "steps b a;steps c b;guard g a;");
         Told.due("against steps he just stays", x.chase(1, 2), -2);
         x = Told.of(PETERSEN + "guard g a;guard h a;guard i a;");
         Told.due("two don't do", x.chase(3, 3), -2);
@@ -118,13 +100,13 @@ public final class QuestionPromisesTest {
         Told.due("corner 4", x.firstGo(1, 4, 0), -1);
         Told.due("guard 2", x.firstGo(1, 3, 2), -1);
         Told.due("guard -1", x.firstGo(1, 3, -1), -1);
-        x = Told.of(corners(4) + lanes("ab bc cd da") + "guard g a;");
+        x = Told.of(Towns.corners(4) + Towns.lanes("ab bc cd da") + "guard g a;");
         Told.due("never", x.firstGo(1, 2, 0), -2);
     }
 
     /** Promise 23. */
     private static void flee() {
-        ThiefTakers x = Told.of(corners(4) + lanes("ab bc cd") + "guard g a;guard h a;");
+        ThiefTakers x = Told.of(Towns.corners(4) + Towns.lanes("ab bc cd") + "guard g a;guard h a;");
         Told.due("as far as may be", x.flee(1, 1), 2);
         Told.due("c is as good as d: the first", x.flee(1, 2), 2);
         Told.due("from d, too", x.flee(1, 3), 2);
@@ -134,10 +116,10 @@ public final class QuestionPromisesTest {
         Told.due("guards 4", x.flee(4, 1), -1);
         Told.due("corner 4", x.flee(1, 4), -1);
         Told.due("corner -1", x.flee(1, -1), -1);
-        x = Told.of(corners(4) + lanes("ab bc cd da") + "guard g a;");
+        x = Told.of(Towns.corners(4) + Towns.lanes("ab bc cd da") + "guard g a;");
         Told.due("never: only c is safe", x.flee(1, 1), 2);
         Told.due("never: stays at c", x.flee(1, 2), 2);
-        x = Told.of(corners(6) + lanes("ab bc cd de ef fa") + "guard g a;");
+        x = Told.of(Towns.corners(6) + Towns.lanes("ab bc cd de ef fa") + "guard g a;");
         Told.due("never: of c, d, e the first", x.flee(1, 3), 2);
     }
 
@@ -146,27 +128,27 @@ public final class QuestionPromisesTest {
         Told.due("no corners", new ThiefTakers().takers(), 0);
         Told.due("no post", new ThiefTakers().post(0), -2);
         Told.due("post(-1)", new ThiefTakers().post(-1), -1);
-        ThiefTakers x = Told.of(corners(1));
+        ThiefTakers x = Told.of(Towns.corners(1));
         Told.due("one corner", x.takers(), 1);
         Told.due("its post", x.post(0), 0);
-        x = Told.of(corners(4) + lanes("ab bc cd da"));
+        x = Told.of(Towns.corners(4) + Towns.lanes("ab bc cd da"));
         Told.due("a ring", x.takers(), 2);
         Told.due("both at a", x.post(0), 0);
         Told.due("both at a", x.post(1), 0);
         Told.due("no third", x.post(2), -2);
-        x = Told.of(corners(3) + "steps b a;steps c a;");
+        x = Told.of(Towns.corners(3) + "steps b a;steps c a;");
         Told.due("two who are at the heads of steps", x.takers(), 2);
         Told.due("b", x.post(0), 1);
         Told.due("c", x.post(1), 2);
-        x = Told.of(corners(3));
+        x = Told.of(Towns.corners(3));
         Told.due("three alone", x.takers(), 3);
         Told.due("c", x.post(2), 2);
         Told.due("k great", x.post(2147483647), -2);
-        x = Told.of(corners(4));
+        x = Told.of(Towns.corners(4));
         Told.due("not by 3", x.takers(), -2);
         Told.due("no posts", x.post(0), -2);
         Told.due("Petersen's graph", Told.of(PETERSEN).takers(), 3);
-        x = Told.of(corners(3) + lanes("ab bc"));
+        x = Told.of(Towns.corners(3) + Towns.lanes("ab bc"));
         Told.due("before", x.takers(), 1);
         x.bar(1);
         Told.due("barred", x.takers(), 2);
@@ -181,19 +163,19 @@ public final class QuestionPromisesTest {
         Told.due("no corners", new ThiefTakers().look(10), 0);
         Told.due("n 0", new ThiefTakers().sweep(0), -1);
         Told.due("n 11", new ThiefTakers().look(11), -1);
-        ThiefTakers x = Told.of(corners(1));
+        ThiefTakers x = Told.of(Towns.corners(1));
         Told.due("one corner", x.sweep(1), 1);
         Told.due("look there", x.look(1), 1);
         // On a path of m corners it takes 2 (m - 2) nights.
         String pairs = "ab bc cd de ef fg gh hi ij";
         for (int m = 3; m <= 10; m++) {
-            x = Told.of(corners(m) + lanes(pairs.substring(0, 3 * (m - 1) - 1)));
+            x = Told.of(Towns.corners(m) + Towns.lanes(pairs.substring(0, 3 * (m - 1) - 1)));
             Told.due("a path of " + m, x.sweep(1), 2 * (m - 2));
             Told.due("from its second corner", x.look(1), 2);
             Told.due("all at once", x.sweep(m), 1);
             Told.due("all of them", x.look(m), (1 << m) - 1);
         }
-        x = Told.of(corners(4) + lanes("ab bc cd da"));
+        x = Told.of(Towns.corners(4) + Towns.lanes("ab bc cd da"));
         Told.due("a ring by one", x.sweep(1), -2);
         Told.due("a ring by one", x.look(1), -2);
         Told.due("a ring by two", x.sweep(2), 2);
@@ -203,13 +185,13 @@ public final class QuestionPromisesTest {
         Told.due("n 11", x.sweep(11), -1);
         Told.due("n 10", x.sweep(10), 1);
         // He at the end of steps stays there: nobody needs to be looked for in the first night.
-        x = Told.of(corners(2) + "steps a b;");
+        x = Told.of(Towns.corners(2) + "steps a b;");
         Told.due("steps", x.sweep(1), 2);
         Told.due("look nowhere", x.look(1), 0);
-        x = Told.of(corners(2));
+        x = Told.of(Towns.corners(2));
         Told.due("two alone", x.sweep(1), 2);
         Told.due("first a", x.look(1), 1);
-        x = Told.of(corners(2) + lanes("ab"));
+        x = Told.of(Towns.corners(2) + Towns.lanes("ab"));
         Told.due("two with a lane", x.sweep(1), 2);
         Told.due("first a", x.look(1), 1);
         x.bar(0);
@@ -219,9 +201,9 @@ public final class QuestionPromisesTest {
     /** Promise 28. */
     private static void dark() {
         Told.due("no corners", new ThiefTakers().dark(), 0);
-        Told.due("a path", Told.of(corners(4) + lanes("ab bc cd")).dark(), 1);
-        Told.due("a ring", Told.of(corners(4) + lanes("ab bc cd da")).dark(), 2);
-        Told.due("all four to each other", Told.of(corners(4) + lanes("ab ac ad bc bd cd")).dark(), 3);
+        Told.due("a path", Told.of(Towns.corners(4) + Towns.lanes("ab bc cd")).dark(), 1);
+        Told.due("a ring", Told.of(Towns.corners(4) + Towns.lanes("ab bc cd da")).dark(), 2);
+        Told.due("all four to each other", Told.of(Towns.corners(4) + Towns.lanes("ab ac ad bc bd cd")).dark(), 3);
     }
 
     /** Promise 29. */
@@ -239,8 +221,8 @@ public final class QuestionPromisesTest {
         Told.due("thief -1", x.could(-1, 0), -1);
         x.go(4);
         Told.due("caught", x.could(0, 0), 0);
-        Told.due("shut in", Told.of(corners(1) + "guard g a;thief t a 0;").could(0, 1), 0);
-        x = Told.of(corners(2) + "lane a b;guard g b;thief t a 0;");
+        Told.due("shut in", Told.of(Towns.corners(1) + "guard g a;thief t a 0;").could(0, 1), 0);
+        x = Told.of(Towns.corners(2) + "lane a b;guard g b;thief t a 0;");
         x.bar(0);
         Told.due("a barred lane", x.could(0, 5), 1);
     }
@@ -256,9 +238,9 @@ public final class QuestionPromisesTest {
         Told.due("without guards", Told.of(PATH).unseen(0), 60);
         Told.due("out of the way", Told.of(PATH + "guard g a;").unseen(2), 60);
         // From b on to e and no more back: a is unseen from the second hour on, but for the first.
-        x = Told.of(corners(5) + lanes("ab bc cd de") + "guard g a;beat g e;");
+        x = Told.of(Towns.corners(5) + Towns.lanes("ab bc cd de") + "guard g a;beat g e;");
         Told.due("59 of 60", x.unseen(0), 59);
-        Told.due("steps: far of it from him", Told.of(corners(2) + "steps a b;guard g b;").unseen(0), 60);
+        Told.due("steps: far of it from him", Told.of(Towns.corners(2) + "steps a b;guard g b;").unseen(0), 60);
     }
 
     /** Promise 31. */
@@ -268,16 +250,16 @@ public final class QuestionPromisesTest {
         Told.due("b", x.round(1), 3);
         Told.due("corner 4", x.round(4), -1);
         Told.due("corner -1", x.round(-1), -1);
-        Told.due("one corner", Told.of(corners(1)).round(0), 0);
-        Told.due("two alone", Told.of(corners(2)).round(0), -2);
+        Told.due("one corner", Told.of(Towns.corners(1)).round(0), 0);
+        Told.due("two alone", Told.of(Towns.corners(2)).round(0), -2);
         // A star of nine: each arm twice but for the last one.
-        x = Told.of(corners(10) + lanes("ab ac ad ae af ag ah ai aj"));
+        x = Told.of(Towns.corners(10) + Towns.lanes("ab ac ad ae af ag ah ai aj"));
         Told.due("from its middle", x.round(0), 17);
         Told.due("from an arm", x.round(3), 16);
-        x = Told.of(corners(3) + "steps a b;steps a c;steps b c;");
+        x = Told.of(Towns.corners(3) + "steps a b;steps a c;steps b c;");
         Told.due("by steps", x.round(0), 2);
         Told.due("too late", x.round(1), -2);
-        x = Told.of(corners(5) + lanes("ab bc cd de"));
+        x = Told.of(Towns.corners(5) + Towns.lanes("ab bc cd de"));
         Told.due("a path from its middle", x.round(2), 6);
     }
 
@@ -293,12 +275,12 @@ public final class QuestionPromisesTest {
         Told.due("one is barred", x.wall(3, 0), 1);
         x.bar(1);
         Told.due("none leads there", x.wall(3, 0), 0);
-        x = Told.of(corners(2) + "lane a b;steps a b;steps b a;");
+        x = Told.of(Towns.corners(2) + "lane a b;steps a b;steps b a;");
         Told.due("three side by side, two lead there", x.wall(0, 1), 2);
         Told.due("two lead back", x.wall(1, 0), 2);
-        x = Told.of(corners(4) + lanes("ab ac ad bc bd cd"));
+        x = Told.of(Towns.corners(4) + Towns.lanes("ab ac ad bc bd cd"));
         Told.due("all to each other", x.wall(0, 3), 3);
-        x = Told.of(corners(6) + lanes("ab ac bd cd de df ef"));
+        x = Told.of(Towns.corners(6) + Towns.lanes("ab ac bd cd de df ef"));
         Told.due("two to d, two on", x.wall(0, 5), 2);
     }
 
@@ -320,9 +302,9 @@ public final class QuestionPromisesTest {
         Told.due("what -1", x.drunk(0, 0, 1, -1), -1);
         Told.due("from 4", x.drunk(4, 0, 1, 0), -1);
         Told.due("to -1", x.drunk(0, -1, 1, 0), -1);
-        x = Told.of(corners(2) + "lane a b;steps a b;");
+        x = Told.of(Towns.corners(2) + "lane a b;steps a b;");
         Told.due("two lanes to one corner are one way", x.drunk(0, 1, 1, 1), 2);
-        x = Told.of(corners(10) + lanes("ab ac ad ae af ag ah ai aj"));
+        x = Told.of(Towns.corners(10) + Towns.lanes("ab ac ad ae af ag ah ai aj"));
         // Back to the middle: (1/10 1/10 1/10 1/10) and so on, summed: p' = p / 10 + q / 2.
         Told.due("a star, once", x.drunk(0, 0, 1, 1), 10);
         Told.due("a star, twice: 1/100 + 9/10 1/2", x.drunk(0, 0, 2, 0), 23);
@@ -335,7 +317,7 @@ public final class QuestionPromisesTest {
 
     /** Promise 34. */
     private static void match() {
-        ThiefTakers x = Told.of(corners(5) + lanes("ab bc cd de") + "guard g a;guard h c;thief s d 0;thief t b 0;thief u a 0;");
+        ThiefTakers x = Told.of(Towns.corners(5) + Towns.lanes("ab bc cd de") + "guard g a;guard h c;thief s d 0;thief t b 0;thief u a 0;");
         Told.due("g takes u", x.match(0), 2);
         Told.due("h takes s, not t", x.match(1), 0);
         Told.due("no third guard", x.match(2), -2);
@@ -343,20 +325,20 @@ public final class QuestionPromisesTest {
         Told.due("how far", x.match(4), 1);
         Told.due("what 5", x.match(5), -1);
         Told.due("what -1", x.match(-1), -1);
-        x = Told.of(corners(5) + lanes("ab bc cd de") + "guard g b;guard h b;guard i b;thief s b 0;");
+        x = Told.of(Towns.corners(5) + Towns.lanes("ab bc cd de") + "guard g b;guard h b;guard i b;thief s b 0;");
         Told.due("the first has him", x.match(0), 0);
         Told.due("none is left", x.match(1), -2);
         Told.due("how many", x.match(3), 1);
-        x = Told.of(corners(5) + lanes("ab bc cd de") + "guard g e;guard h b;guard i b;thief s b 0;");
+        x = Told.of(Towns.corners(5) + Towns.lanes("ab bc cd de") + "guard g e;guard h b;guard i b;thief s b 0;");
         Told.due("less far: h has him", x.match(1), 0);
         Told.due("g has none", x.match(0), -2);
         Told.due("how far", x.match(4), 0);
-        x = Told.of(corners(3) + "guard g a;guard h b;thief s c 0;thief t c 0;");
+        x = Told.of(Towns.corners(3) + "guard g a;guard h b;thief s c 0;thief t c 0;");
         Told.due("as many as may be, 99 each", x.match(4), 198);
         Told.due("two", x.match(3), 2);
         Told.due("s", x.match(0), 0);
         Told.due("t", x.match(1), 1);
-        x = Told.of(corners(2) + "guard g a;thief s a 0;thief t b 0;");
+        x = Told.of(Towns.corners(2) + "guard g a;thief s a 0;thief t b 0;");
         x.go(1);
         Told.due("a caught one is none", x.match(0), 1);
         Told.due("no guards", new ThiefTakers().match(4), 0);

@@ -5,20 +5,43 @@ import java.util.NoSuchElementException;
 final class Told {
     private static int checks = 0;
     private static int wrong = 0;
+    private static String test = "";
 
     private Told() {
+    }
+
+    /** What stands ahead of all that is printed from now on. */
+    static void inTest(String name) {
+        test = name;
     }
 
     static void due(String call, long got, long want) {
         checks++;
         if (got != want) {
             wrong++;
-            System.out.println(call + " answered " + got + ", due is " + want);
+            System.out.println(test + call + " answered " + got + ", due is " + want);
         }
     }
 
     static void due(String call, boolean got, boolean want) {
         due(call, got ? 1 : 0, want ? 1 : 0);
+    }
+
+    /** Two texts of lines; the first lines that are unlike are told. */
+    static void same(String what, String got, String want) {
+        String[] gotLines = got.split("\n");
+        String[] wantLines = want.split("\n");
+        int k = 0;
+        while (k < gotLines.length && k < wantLines.length && gotLines[k].equals(wantLines[k])) {
+            k++;
+        }
+        boolean alike = k == gotLines.length && k == wantLines.length;
+        String unlike = alike ? "" : ": " + lineOf(gotLines, k) + " in place of " + lineOf(wantLines, k);
+        due(what + unlike, alike, true);
+    }
+
+    private static String lineOf(String[] lines, int k) {
+        return k < lines.length ? lines[k] : "nothing";
     }
 
     static void end() {
@@ -55,8 +78,10 @@ final class Told {
 
     /** The place of the fault is where ^ stands in the text. */
     static void fault(int number, String marked) {
-        int place = marked.indexOf('^');
-        String text = marked.replace("^", "");
+        fault(number, marked.indexOf('^'), marked.replace("^", ""));
+    }
+
+    static void fault(int number, int place, String text) {
         ThiefTakers x = new ThiefTakers();
         due("text(" + text + ")", tell(x, text), -1);
         due("fault(0) of " + text, x.fault(0), number);
