@@ -141,6 +141,7 @@ public final class ChaseBoundariesTest {
         Told.due("from c: c and d are, b isn't", x.flee(1, 2), 2);
         Told.due("none chases: the first next to d", x.flee(0, 3), 2);
         Told.due("none chases: the first is his own", x.flee(0, 0), 0);
+        Told.due("none chases: the first next to b", x.flee(0, 1), 0);
         Told.due("alone", Told.of("corner a 0 0;").flee(0, 0), 0);
     }
 

@@ -41,10 +41,50 @@ public final class ComparedWithNaiveTest {
         for (int seed = firstSeed; seed < firstSeed + runs * 50 && wrong < 20; seed++) {
             brokenText(new Random(seed));
         }
+        for (int seed = firstSeed; seed < firstSeed + Math.max(1, runs / 60) && wrong < 20; seed++) {
+            sweepEdges(seed);
+        }
         System.out.println(wrong == 0 ? "all answers are alike" : wrong + " answers are not alike");
         if (wrong != 0) {
             System.exit(1);
         }
+    }
+
+    /** Numbers at the document's edges, fewer of them where a call takes more. */
+    private static final int[][] EDGES = {{}, {Integer.MIN_VALUE, -2, -1, 0, 1, 2, 3, 4, 5, 6, 7, 8, 9, 10, 11, 12, 13, 19, 20, 24, 25,
+        31, 32, 60, 61, 99, 100, 200, 201, 700, 999, 1000, 9999, 10000, Integer.MAX_VALUE},
+        {Integer.MIN_VALUE, -1, 0, 1, 2, 3, 4, 5, 6, 7, 10, 32, 60, 61, 99, 999, 1000, Integer.MAX_VALUE},
+        {-1, 0, 1, 2, 3, 4, 5, 99, 100, 200, 201, Integer.MAX_VALUE}, {-1, 0, 1, 2, 4, 5, 60, 61}};
+    /** An object is used for 512 calls at most; telling a text takes up to 40 of them. */
+    private static final int MOST_CALLS = 460;
+
+    /** Every call with every row of edges, on towns of all sizes in turn. */
+    private static void sweepEdges(int seed) throws Exception {
+        Run run = null;
+        int calls = 0;
+        for (int which = 0; which < FACE.size() && wrong < 20; which++) {
+            int many = FACE.get(which).getParameterCount();
+            int[] edges = many < EDGES.length ? EDGES[many] : new int[0];
+            int rows = (int) Math.round(Math.pow(edges.length, many));
+            for (int row = 0; row < rows && wrong < 20; row++) {
+                if (calls % MOST_CALLS == 0) {
+                    run = new Run(seed + calls, 1 + calls / MOST_CALLS % 5, 8);
+                    run.play(10);
+                }
+                run.callWith(which, rowOf(edges, many, row));
+                calls++;
+            }
+        }
+    }
+
+    private static int[] rowOf(int[] edges, int many, int row) {
+        int[] numbers = new int[many];
+        int rest = row;
+        for (int k = 0; k < many; k++) {
+            numbers[k] = edges[rest % edges.length];
+            rest /= edges.length;
+        }
+        return numbers;
     }
 
     private static final class Run {
@@ -114,6 +154,16 @@ public final class ComparedWithNaiveTest {
                 args[1] = (Integer) args[0] == 2 ? args[1] : 0;
             }
             compare(name + Arrays.toString(args), answer(m, real, args), answer(PLAIN.get(which), naive, args));
+        }
+
+        void callWith(int which, int[] numbers) throws Exception {
+            Method m = FACE.get(which);
+            Class<?>[] types = m.getParameterTypes();
+            Object[] args = new Object[types.length];
+            for (int i = 0; i < args.length; i++) {
+                args[i] = types[i] == boolean.class ? (Object) (numbers[i] % 2 == 0) : (Object) numbers[i];
+            }
+            compare(m.getName() + Arrays.toString(args), answer(m, real, args), answer(PLAIN.get(which), naive, args));
         }
 
         /** For each number of a call: below what most of the drawn ones are. */

@@ -547,6 +547,30 @@ public final class TextBoundariesTest {
         Told.fault(1, "law take not^;");
     }
 
+    private static void promise4_fault_aRuleIsDreadTakeOrStir() {
+        for (String word : LANGUAGE) {
+            boolean rule = word.equals("dread") || word.equals("take") || word.equals("stir");
+            if (rule) {
+                Told.fine(1, "law " + word + " 1;");
+            } else {
+                Told.fault(1, "law ^" + word + " 1;");
+            }
+        }
+        Told.fault(1, "law ^x 1;");
+        Told.fault(1, "law ^1;");
+    }
+
+    private static void promise4_fault_namesInLawsAreSeven() {
+        for (String word : LANGUAGE) {
+            boolean name = "light far loot bold had guards hour".matches(".*\\b" + word + "\\b.*");
+            if (name) {
+                Told.fine(1, "law take " + word + ";");
+            } else if (!word.equals("not")) {
+                Told.fault(1, "law take ^" + word + ";");
+            }
+        }
+    }
+
     private static void promise4_fault_toldAlready() {
         Told.fault(3, "corner a 1 2;corner ^a 3 4;");
         Told.fault(3, TWO + "guard g a;guard ^g b;");

@@ -51,8 +51,11 @@ public final class TownBoundariesTest {
         Told.due("the guard is", x.corner(0, 2), 1);
     }
 
-    private static void promise6_corner_allGuardsAndThievesOfAFullTown() {
+    private static void promise6_corner_noneOrAllAreThere() {
         ThiefTakers x = Told.of("corner a 9 999;guard g a;guard h a;guard i a;thief s a 0;thief t a 0;thief u a 0;thief v a 0;");
+        Told.due("no guards", Told.of("corner a 0 0;").corner(0, 2), 0);
+        Told.due("no thieves", Told.of("corner a 0 0;").corner(0, 3), 0);
+        Told.due("next to none", Told.of("corner a 0 0;").corner(0, 4), 0);
         Told.due("three guards", x.corner(0, 2), 7);
         Told.due("four thieves", x.corner(0, 3), 15);
         Told.due("next to all others", Told.of(Towns.corners(10) + Towns.lanes("ja jb jc jd je jf jg jh ji")).corner(9, 4), 511);
@@ -117,6 +120,16 @@ public final class TownBoundariesTest {
                 Told.due("lane " + lane + " while " + barred + " is barred", x.lane(lane, 3), lane == barred ? 1 : 0);
             }
         }
+    }
+
+    private static void promise9_lane_whetherSteps() {
+        ThiefTakers x = Told.of(Towns.corners(10) + Towns.steps("ab") + Towns.lanes("bc cd de ef fg gh hi ij ja ac ad ae af ag ah ai bd be")
+                + Towns.steps("ji"));
+        for (int lane = 0; lane < 20; lane++) {
+            Told.due("lane " + lane, x.lane(lane, 2), lane == 0 || lane == 19 ? 1 : 0);
+        }
+        Told.due("the last goes from j", x.lane(19, 0), 9);
+        Told.due("to i", x.lane(19, 1), 8);
     }
 
     private static void promise10_law_noSuchOnes() {
@@ -574,7 +587,12 @@ public final class TownBoundariesTest {
             busy.takes("ahead, what " + what, 0, 200, (x, n) -> x.ahead(n, asked, 0), -1);
         }
         Told.due("0 hours: as it is", Towns.busy().ahead(0, 2, 0), 67);
-        ThiefTakers x = inHour(9800);
+        ThiefTakers x = Told.of(Towns.path(10) + "guard g a;beat g j;thief t j 0;law stir 0;grip 0;");
+        for (int n : new int[] {0, 1, 8, 9, 10, 200}) {
+            Told.due("the guard behind " + n, x.ahead(n, 3, 0), Math.min(n, 9));
+            Told.due("the thief behind " + n, x.ahead(n, 4, 0), 9);
+        }
+        x = inHour(9800);
         Told.due("no hour is the last of what comes", x.ahead(200, 3, 0) >= 0, true);
         Told.due("which it is still", x.count(5), 9800);
     }
