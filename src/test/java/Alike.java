@@ -30,6 +30,11 @@ final class Alike {
         }
     }
 
+    /** Whatever it answers, all is as if it had not been asked. */
+    void asked(String call, ToLongFunction<ThiefTakers> asked) {
+        leaves(call, asked, asked.applyAsLong(made.get()));
+    }
+
     /** Behind the calls all is as with the other ones. */
     void becomes(String call, ToLongFunction<ThiefTakers> asked, Supplier<ThiefTakers> other) {
         for (Whole part : Whole.values()) {

@@ -4,6 +4,9 @@ public final class ChaseBoundariesTest {
     private static final String RING_OF_STEPS = Towns.corners(10) + Towns.steps("ab bc cd de ef fg gh hi ij ja");
     private static final String STAR = Towns.corners(10) + Towns.lanes("ab ac ad ae af ag ah ai aj");
 
+    /** Petersen's graph: whoever stands next to two of its corners has a third way out, so two never do. */
+    private static final String PETERSEN = Towns.corners(10) + Towns.lanes("ab bc cd de ea af bg ch di ej fh hj jg gi if");
+
     public static void main(String[] args) {
         Promises.run(ChaseBoundariesTest.class, 21, 32);
     }
@@ -76,6 +79,58 @@ public final class ChaseBoundariesTest {
         Told.due("three of three", Told.of(STAR + "guard g b;guard h c;guard i d;").chase(7, 0), 1);
     }
 
+    private static void promise21_chase_byThreeWhereTwoDontDo() {
+        ThiefTakers x = Told.of(PETERSEN + "guard g a;guard h a;guard i a;");
+        for (int corner = 0; corner < 10; corner++) {
+            boolean next = corner == 1 || corner == 4 || corner == 5;
+            int one = corner == 0 ? 0 : next ? 1 : -2;
+            for (int guards : new int[] {1, 2, 4, 3, 5, 6}) {
+                Told.due("corner " + corner + " by " + guards, x.chase(guards, corner), one);
+            }
+            // The three go to the three corners next to a, from where each of the six others is seen by one.
+            Told.due("corner " + corner + " by all", x.chase(7, corner), corner == 0 ? 0 : next ? 1 : 2);
+        }
+    }
+
+    private static void promise21_chase_byTheLanesThatAreNow() {
+        ThiefTakers x = Told.of(RING + "guard g a;guard h c;guard i a;");
+        Told.due("one on a ring", x.chase(1, 2), -2);
+        x.bar(2);
+        Told.due("the ring is cut", x.chase(1, 2), 2);
+        Told.due("his first go", x.firstGo(1, 2, 0), 1);
+        x.bar(0);
+        Told.due("cut from a to b, too", x.chase(1, 2), -2);
+        Told.due("he flees to b", x.flee(1, 2), 1);
+        x.undo();
+        Told.due("undone", x.chase(1, 2), 2);
+        x.undo();
+        Told.due("undone", x.chase(1, 2), -2);
+        x.bar(1);
+        x.keep();
+        x.bar(1);
+        Told.due("a ring again", x.chase(1, 2), -2);
+        x.back();
+        Told.due("back where it was cut", x.chase(1, 2), 2);
+        x.text(0);
+        Told.tell(x, Towns.corners(4) + Towns.lanes("ab bc cd da") + "guard g a;");
+        Told.due("another text", x.chase(1, 2), -2);
+        x.text(0);
+        Told.tell(x, Towns.corners(3) + Towns.lanes("ab bc") + "guard g a;");
+        Told.due("one of less corners", x.chase(1, 2), 2);
+        x.text(0);
+        Told.tell(x, Towns.path(10) + "guard g a;");
+        Told.due("one of more corners", x.chase(1, 2), 9);
+    }
+
+    private static void promise21_chase_askedAllStays() {
+        Alike full = new Alike(Towns::full);
+        full.asked("chase", x -> x.chase(7, 9));
+        full.asked("firstGo", x -> x.firstGo(7, 9, 2));
+        full.asked("flee", x -> x.flee(7, 9));
+        full.asked("takers", ThiefTakers::takers);
+        full.asked("post", x -> x.post(0));
+    }
+
     private static void promise22_firstGo_noSuchOnes() {
         Alike busy = new Alike(Towns::busy);
         busy.takes("guards", 0, 3, (x, guards) -> x.firstGo(guards, 0, 0), -1);
@@ -115,6 +170,34 @@ public final class ChaseBoundariesTest {
         Told.due("the first goes to a, the second takes", x.firstGo(3, 2, 0) * 10 + x.firstGo(3, 2, 1), 2);
     }
 
+    private static void promise22_firstGo_staysOrGoesToACornerNextToHis() {
+        // To who is at d it is alike whether e or b is taken, whether one stands at g or a; only e is next to f, none to g.
+        String town = Towns.corners(7) + Towns.lanes("bc bd de ef");
+        ThiefTakers x = Told.of(town + "guard g f;guard h g;");
+        Told.due("alone, from f to e", x.firstGo(1, 3, 0), 4);
+        Told.due("from f to e", x.firstGo(3, 3, 0), 4);
+        Told.due("stays at g", x.firstGo(3, 3, 1), 6);
+        x = Told.of(town + "guard g g;guard h f;");
+        Told.due("stays at g", x.firstGo(3, 3, 0), 6);
+        Told.due("from f to e", x.firstGo(3, 3, 1), 4);
+        x = Told.of(town + "guard g g;guard h f;guard i g;");
+        Told.due("stays at g, of three", x.firstGo(7, 3, 0), 6);
+        Told.due("from f to e, of three", x.firstGo(7, 3, 1), 4);
+        Told.due("stays at g, too", x.firstGo(7, 3, 2), 6);
+    }
+
+    private static void promise22_firstGo_ofThreeTheFirstRow() {
+        ThiefTakers x = Told.of(PETERSEN + "guard g a;guard h a;guard i a;");
+        for (int corner : new int[] {2, 3, 6, 7, 8, 9}) {
+            Told.due("g to b", x.firstGo(7, corner, 0), 1);
+            Told.due("h to e", x.firstGo(7, corner, 1), 4);
+            Told.due("i to f", x.firstGo(7, corner, 2), 5);
+        }
+        Told.due("g stays: one of the others takes him at b", x.firstGo(7, 1, 0), 0);
+        Told.due("h stays", x.firstGo(7, 1, 1), 0);
+        Told.due("i goes to b", x.firstGo(7, 1, 2), 1);
+    }
+
     private static void promise23_flee_noSuchOnes() {
         Alike busy = new Alike(Towns::busy);
         busy.takes("guards", 0, 3, (x, guards) -> x.flee(guards, 0), -1);
@@ -152,6 +235,18 @@ public final class ChaseBoundariesTest {
         Told.due("stays at c", x.flee(1, 2), 2);
     }
 
+    private static void promise23_flee_toTheFirstAndTheLastCorner() {
+        ThiefTakers x = Told.of(Towns.path(10) + "guard g e;guard h j;guard i a;");
+        Told.due("from b: a is as late as b", x.flee(1, 1), 0);
+        Told.due("from a", x.flee(1, 0), 0);
+        Told.due("from f", x.flee(1, 5), 6);
+        Told.due("from i: h is as late as i and j", x.flee(1, 8), 7);
+        x = Told.of("corner a 0 0;corner b 0 0;corner c 0 0;" + Towns.lanes("ba bc") + "guard g c;");
+        Told.due("only a is left", x.flee(1, 1), 0);
+        x = Told.of(Towns.path(10) + "guard g h;");
+        Told.due("only j is left", x.flee(1, 8), 9);
+    }
+
     private static void promise24_takers_0WithoutCorners() {
         new Alike(ThiefTakers::new).leaves("no corners", ThiefTakers::takers, 0);
         Told.due("one corner", Told.of(Towns.corners(1)).takers(), 1);
@@ -173,6 +268,15 @@ public final class ChaseBoundariesTest {
         x.bar(3);
         Told.due("in four", x.takers(), -2);
         new Alike(Towns::busy).leaves("real guards don't matter", ThiefTakers::takers, 1);
+    }
+
+    private static void promise24_takers_threeWhereAllAreJoined() {
+        ThiefTakers x = Told.of(PETERSEN);
+        Told.due("Petersen's graph", x.takers(), 3);
+        Told.due("all at a", x.post(0) * 100 + x.post(1) * 10 + x.post(2), 0);
+        Told.due("no fourth", x.post(3), -2);
+        x.bar(0);
+        Told.due("less a lane", x.takers(), 2);
     }
 
     private static void promise25_post_kFrom0On() {

@@ -102,6 +102,75 @@ public final class ImageBoundariesTest {
         Told.due("none of the grips to come holds, but that one did", x.tried(1, 0, 9), 0);
     }
 
+    private static void promise44_tried_thatGuardStaysAndGripsAllTheSame() {
+        // g walks from a to b in the first hour, h stays at c; s is at a, t at b, u at c.
+        String town = Towns.path(4) + "guard g a;beat g b;guard h c;thief s a 0;thief t b 0;thief u c 0;law stir 0;";
+        ThiefTakers x = Told.of(town);
+        for (int corner = 0; corner < 4; corner++) {
+            x.drop(corner, 999);
+        }
+        Told.due("as it goes: t and u are caught", x.ahead(1, 1, 0) * 100 + x.ahead(1, 1, 1) * 10 + x.ahead(1, 1, 2), 100);
+        Told.due("had by s", x.tried(2, 1, 5), 5);
+        x = Told.of(town.replace("law stir 0;", "law stir 0;law take (far=0)*1+(far=1)*20+(far=2)*30;"));
+        for (int corner = 0; corner < 4; corner++) {
+            x.drop(corner, 999);
+        }
+        Told.due("the other one stays: no change", x.tried(2, 1, 1), 20);
+        Told.due("g stays at a: s is caught, t isn't", x.tried(2, 0, 1), 20);
+        x = Told.of(town.replace("thief t b 0;", "thief t b 8;"));
+        for (int corner = 0; corner < 4; corner++) {
+            x.drop(corner, 999);
+        }
+        Told.due("h stays: s has 1 an hour", x.tried(2, 1, 3), 3);
+        Told.due("g stays: t has 9 an hour", x.tried(2, 0, 3), 27);
+    }
+
+    private static void promise44_tried_nobodyStirs() {
+        for (String stir : new String[] {"", "law stir 0;", "law stir 1;", "law stir 1/0;"}) {
+            ThiefTakers x = Told.of("corner a 9 999;corner b 0 0;lane a b;thief s a 6;" + stir);
+            Told.due("at a " + stir, x.tried(3, 0, 9), 63);
+            Told.due("as it goes " + stir, x.tried(0, 0, 9), stir.equals("law stir 0;") ? 63 : 0);
+        }
+    }
+
+    private static void promise44_tried_lanesLeadBothWaysBarredOrNot() {
+        String town = "corner a 0 99;corner b 9 0;thief s b 4;law dread light;";
+        for (String lane : new String[] {"lane a b;", "lane b a;", "steps a b;", "steps b a;"}) {
+            for (int bars = 0; bars <= 2; bars++) {
+                ThiefTakers x = Told.of(town + lane);
+                for (int k = 0; k < bars; k++) {
+                    x.bar(0);
+                }
+                Told.due(bars + " times barred: " + lane, x.tried(4, 0, 2), 10);
+                boolean open = bars != 1 && !lane.equals("steps a b;");
+                Told.due(bars + " times barred, as it goes: " + lane, x.tried(0, 0, 2), open ? 10 : 0);
+            }
+        }
+        // FAR by that, too: he walks against the steps to his aim, and is far from nowhere.
+        ThiefTakers x = Told.of("corner a 0 99;corner b 0 99;steps a b;guard g b;beat g a;thief s b 0;law stir 0;law take far;");
+        Told.due("the guard has gone: one far", x.tried(4, 0, 1), 1);
+        x = Told.of("corner a 0 99;corner b 0 99;steps a b;guard g b;thief s a 0;law stir 0;law take far;");
+        Told.due("one far from a", x.tried(4, 0, 1), 1);
+        x = Told.of("corner a 0 99;corner b 0 99;steps a b;guard g b;thief s a 0;law stir 0;law take far;");
+        Told.due("99 far as it goes", x.tried(0, 0, 1), 99);
+        Told.due("where none is", Told.of("corner a 0 99;corner b 0 9;thief s b 4;law dread light;").tried(4, 0, 1), 5);
+    }
+
+    private static void promise44_tried_askedAllStays() {
+        Alike busy = new Alike(Towns::busy);
+        ToLongFunction<ThiefTakers> ahead = x -> x.ahead(5, 2, 0) * 100000L + x.tried(0, 0, 5) * 1000L + x.caught(0);
+        long due = ahead.applyAsLong(Towns.busy());
+        for (int what = 0; what <= 4; what++) {
+            int asked = what;
+            busy.asked("tried " + what, x -> x.tried(asked, 0, 5));
+            ThiefTakers x = Towns.busy();
+            x.tried(asked, 0, 5);
+            Told.due("what comes behind tried " + what, ahead.applyAsLong(x), due);
+        }
+        busy.asked("tried of guard 1", x -> x.tried(2, 1, 200));
+        new Alike(Towns::busy).asked("chance", x -> x.chance(77, 9, 0));
+    }
+
     private static void promise45_undo_noneIsLeft() {
         new Alike(ThiefTakers::new).leaves("nothing was done", ThiefTakers::undo, -1);
         Alike fresh = new Alike(() -> Told.of(Towns.BUSY));
@@ -148,6 +217,44 @@ public final class ImageBoundariesTest {
         Told.due("the bar first", x.undo() * 10 + x.count(9), 20);
         Told.due("then the loot", x.undo() * 10 + x.corner(1, 1), 10);
         Told.due("then the guard", x.undo() * 10 + x.guard(0, 0), 0);
+    }
+
+    private static void promise45_undo_20OfAllKinds() {
+        for (int times : new int[] {19, 20, 21, 22, 23, 40}) {
+            ThiefTakers x = Told.of(Towns.path(5) + "guard g a;guard h e;");
+            String[] was = new String[times + 1];
+            for (int k = 0; k < times; k++) {
+                was[k] = deedsOf(x);
+                switch (k * 7 % 5) {
+                    case 0 -> x.send(0, 1 - x.guard(0, 0));
+                    case 1 -> x.bar(2);
+                    case 2 -> x.drop(k % 5, k + 1);
+                    case 3 -> x.send(1, 7 - x.guard(1, 0));
+                    default -> x.bar(1);
+                }
+            }
+            Told.due("can be undone of " + times, x.count(12), Math.min(times, 20));
+            for (int k = times - 1; k >= Math.max(0, times - 20); k--) {
+                Told.due("undone " + k + " of " + times, x.undo(), k - Math.max(0, times - 20));
+                Told.same("as it was ahead of " + k + " of " + times, deedsOf(x), was[k]);
+            }
+            Told.due("no more", x.undo(), -1);
+        }
+    }
+
+    /** What calls can do that can be undone. */
+    private static String deedsOf(ThiefTakers x) {
+        StringBuilder all = new StringBuilder();
+        for (int guard = 0; guard < x.count(2); guard++) {
+            all.append("guard ").append(x.guard(guard, 0)).append('\n');
+        }
+        for (int lane = 0; lane < x.count(1); lane++) {
+            all.append("lane ").append(x.lane(lane, 3)).append('\n');
+        }
+        for (int corner = 0; corner < x.count(0); corner++) {
+            all.append("corner ").append(x.corner(corner, 1)).append(" next to ").append(x.corner(corner, 4)).append('\n');
+        }
+        return all.toString();
     }
 
     private static void promise45_undo_ifNoHourWentBy() {
@@ -249,6 +356,34 @@ public final class ImageBoundariesTest {
         x = Towns.busy();
         astray.applyAsLong(x);
         Told.same("as it was", Whole.IS.of(x), was);
+    }
+
+    private static void promise47_back_allOfAFullTown() {
+        for (String grip : new String[] {"grip 30;", "grip 70;"}) {
+            String text = Towns.FULL.replace("grip 30;", grip);
+            ThiefTakers x = Told.of(text);
+            x.go(4);
+            x.bar(7);
+            x.bar(19);
+            String was = Whole.IS.of(x).replace("count 12 2", "count 12 0");
+            x.keep();
+            x.go(60);
+            for (int lane = 0; lane < 20; lane++) {
+                x.bar(lane);
+            }
+            for (int corner = 0; corner < 10; corner++) {
+                x.drop(corner, 100 + corner);
+            }
+            Told.due("back", x.back(), 4);
+            Told.same("as it was", Whole.IS.of(x), was);
+            ThiefTakers stayed = Told.of(text);
+            stayed.go(4);
+            stayed.bar(7);
+            stayed.bar(19);
+            Told.same("what comes", Whole.COMES.of(x), Whole.COMES.of(stayed));
+            x.back();
+            Told.same("back once more", Whole.IS.of(x), was);
+        }
     }
 
     private static void promise47_back_factsStay() {

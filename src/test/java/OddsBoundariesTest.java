@@ -285,6 +285,39 @@ public final class OddsBoundariesTest {
         }
     }
 
+    private static void promise39_strike_severalFactsAndOneSeveralTimes() {
+        ThiefTakers x = Told.of("corner a 0 5;corner b 0 5;thief s a 1;");
+        x.see(1, 0, 1, true);
+        x.see(1, 0, 0, false);
+        x.see(2, 0, 1, true);
+        Told.due("three that aren't so", x.bolds(0), 0);
+        x.strike(0);
+        x.strike(1);
+        Told.due("two of them struck", x.bolds(0), 0);
+        x.strike(2);
+        Told.due("all of them struck", x.bolds(0), 1023);
+        x.strike(2);
+        x.strike(6);
+        Told.due("one strike of two is struck", x.bolds(0), 1023);
+        x.strike(5);
+        Told.due("both are", x.bolds(0), 0);
+    }
+
+    private static void promise39_strike_notLeftOfATextAhead() {
+        ThiefTakers x = facts(2);
+        x.strike(0);
+        x.strike(1);
+        x.text(0);
+        Told.tell(x, "corner a 0 5;corner b 0 5;thief s a 1;");
+        Told.due("none left", x.count(10), 0);
+        for (int k = 0; k < 4; k++) {
+            Told.due("anew", x.see(1, 0, k < 3 ? 0 : 1, true), k);
+        }
+        Told.due("the fourth one isn't so, nor does it strike", x.bolds(0), 0);
+        x.known(3);
+        Told.due("the third one is", x.bolds(0), 1023);
+    }
+
     private static void promise40_known_noSuchN() {
         Alike busy = new Alike(Towns::busy);
         for (int n : Edges.beyond(-1, 3)) {
@@ -363,6 +396,38 @@ public final class OddsBoundariesTest {
         Told.due("back", x.bolds(0), due);
     }
 
+    private static void promise41_bolds_notAgainstSteps() {
+        ThiefTakers x = Told.of("corner a 9 0;corner b 0 0;corner c 0 0;steps b a;lane a c;thief s a 5;law dread light-loot*0;");
+        x.see(1, 0, 2, true);
+        Told.due("by the lane", x.bolds(0), 1023);
+        x.see(1, 0, 1, true);
+        Told.due("not back along the steps", x.bolds(0), 0);
+        x.bar(1);
+        x.known(1);
+        Told.due("as the text has it", x.bolds(0), 1023);
+    }
+
+    private static void promise41_bolds_asItGoesByGripsOf50() {
+        for (int grip : new int[] {0, 1, 49, 50, 51, 99, 100}) {
+            ThiefTakers x = Told.of("corner a 0 9;corner b 0 0;lane a b;guard g a;thief s a 5;law stir hour;law dread loot;law take 0;"
+                    + "seed 3;grip " + grip + ";");
+            x.see(2, 0, 0, true);
+            Told.due("caught at a, grip " + grip, x.bolds(0), grip >= 50 ? 1023 : 0);
+            x.see(2, 0, 1, true);
+            x.known(0);
+            x.strike(0);
+            x.known(-1);
+            Told.due("gone to b, grip " + grip, x.bolds(0), grip >= 50 ? 0 : 1023);
+        }
+    }
+
+    private static void promise41_bolds_askedAllStays() {
+        Alike busy = new Alike(Towns::busy);
+        busy.asked("bolds", x -> x.bolds(0));
+        busy.asked("hour to ask", x -> x.ask(0, 0));
+        busy.asked("left at worst", x -> x.ask(2, 1));
+    }
+
     private static void promise42_ask_noSuchOnes() {
         Alike busy = new Alike(Towns::busy);
         busy.takes("thief", 0, 2, (x, thief) -> x.ask(thief, 0), -1);
@@ -398,5 +463,22 @@ public final class OddsBoundariesTest {
         ThiefTakers x = Told.of("corner a 0 9;corner b 0 0;lane a b;thief s a 5;law stir bold>0;law dread loot;law take 0;");
         x.see(1, 0, 0, true);
         Told.due("one of BOLDS: the first hour", x.ask(0, 0) * 10 + x.ask(0, 1), 11);
+    }
+
+    private static void promise42_ask_amongAnyOfBolds() {
+        for (int bold = 0; bold <= 9; bold++) {
+            String only = "corner a 0 999;corner b 0 0;lane a b;thief s a 5;law dread loot;law stir ";
+            ThiefTakers x = Told.of(only + "bold=" + bold + ";");
+            x.see(1, 0, 1, true);
+            Told.due("only " + bold, x.ask(0, 0) * 10 + x.ask(0, 1), 11);
+            x = Told.of(only + "0;law take bold=" + bold + ";");
+            Told.due("as much but for " + bold, x.ask(0, 0) * 10 + x.ask(0, 1), 19);
+            x = Told.of(only + "0;law take (bold>=" + bold + ")*9;");
+            Told.due("as much from " + bold + " on", x.ask(0, 1), Math.max(bold, 10 - bold));
+            x = Told.of(only + "bold>=" + bold + ";law take 0;");
+            x.see(60, 0, 1, bold % 2 == 1);
+            x.see(1, 0, 1, false);
+            Told.due("of all that stay or of none", x.ask(0, 1), bold % 2 == 1 ? 0 : bold);
+        }
     }
 }

@@ -151,6 +151,44 @@ public final class TextBoundariesTest {
         }, () -> Told.of(Towns.BUSY));
     }
 
+    /** Nothing of a text that was read before, or in part, is left in the next one. */
+    private static void promise3_text_nothingIsLeftOfThoseAhead() {
+        String small = "corner a 1 90;corner b 2 80;guard x a;thief s a 1;thief t b 2;";
+        String[] fine = {"", Towns.BUSY, Towns.FULL, small, small + "lane a b;grip 50;beat x b a;", small + "grip 30;seed 77777;beat x a b;",
+            small + "grip 30;", small + "law take 3;law dread 0-light;lane b a;", small + "law stir 0 or (not 1 and (hour<5));steps b a;",
+            small + "law take 1" + "+1".repeat(31) + ";"};
+        String[] first = {small + "grip 0;seed 5;steps a b;law stir 0;law take (1+(2*(3<(4 and (not ", small + "grip 1;seed 99999;beat x a b;law take"
+            + " not not not (1 or 2*(3 + ", small + "lane a b;beat x b;law take 1+2*3<4 and", Towns.FULL + "?", Towns.BUSY, Towns.FULL,
+            small + "law take not 1" + "+1".repeat(31) + ";", "law dread 1" + "+1".repeat(32) + ";"};
+        for (String text : fine) {
+            for (Whole part : Whole.values()) {
+                String due = part.of(Told.of(text));
+                for (String ahead : first) {
+                    ThiefTakers x = new ThiefTakers();
+                    Told.tell(x, ahead);
+                    Told.tell(x, text);
+                    Told.same(part + " of " + text + " behind " + ahead, part.of(x), due);
+                    x = new ThiefTakers();
+                    Told.tell(x, ahead);
+                    x.text(0);
+                    Told.tell(x, text);
+                    Told.same(part + " of " + text + " behind one of no lines and " + ahead, part.of(x), due);
+                }
+            }
+        }
+    }
+
+    private static void promise3_text_laterTextsHaveAsManyKnots() {
+        ThiefTakers x = new ThiefTakers();
+        for (int k = 1; k <= 9; k++) {
+            String text = "corner a 0 0;thief t a 0;law take " + k + "+1".repeat(31) + ";law stir " + k + ";";
+            Told.due("text " + k, Told.tell(x, text), 4);
+            Told.due("its knots", x.count(4), 64);
+            Told.due("take", x.law(1, 0, 0), k + 31);
+            Told.due("stir", x.law(2, 0, 0), k);
+        }
+    }
+
     private static void promise3_text_withAFaultAllStays() {
         Alike busy = new Alike(Towns::busy);
         busy.leaves("a text cut short", x -> x.text(12), -1, Whole.FAULT, Whole.TAPE);
@@ -437,6 +475,24 @@ public final class TextBoundariesTest {
         Told.fine(2, "law take ((((((((" + sixtyThree + "))))))));law stir (((1)));");
         Told.fault(1, "law take not " + sixtyThree + "^(;");
         Told.fault(1, "law take not " + sixtyThree + " ^not;");
+    }
+
+    private static void promise3_text_the64thKnotCountsAsTheOthersDo() {
+        Told.due("62", Towns.worth("not" + "(1" + "+1".repeat(30) + ")"), 0);
+        Told.due("63", Towns.worth("1" + "+1".repeat(31)), 32);
+        Told.due("64, the not is worked out last", Towns.worth("not 1" + "+1".repeat(30) + "-31"), 1);
+        Told.due("64, another number", Towns.worth("not 1" + "+1".repeat(30) + "-30"), 0);
+        Told.due("62 nots", Towns.worth("not ".repeat(62) + "5"), 1);
+        Told.due("63 nots", Towns.worth("not ".repeat(63) + "5"), 0);
+    }
+
+    private static void promise3_text_64KnotsWaitIn8Brackets() {
+        for (int nots = 54; nots <= 63; nots++) {
+            int inside = nots / 2;
+            String law = "not ".repeat(nots - inside) + "((((((((" + "not ".repeat(inside) + "5))))))))";
+            Told.due(nots + " nots", Towns.worth(law), nots % 2 == 0 ? 1 : 0);
+        }
+        Told.due("a sum and a product in each", Towns.worth("1+2*(".repeat(8) + "7<8 and not 0" + ")".repeat(8)), 511);
     }
 
     private static void promise3_text_aSignRightBehindASmallerOrGreaterBelongsToIt() {

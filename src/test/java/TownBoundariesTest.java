@@ -61,6 +61,28 @@ public final class TownBoundariesTest {
         Told.due("next to all others", Told.of(Towns.corners(10) + Towns.lanes("ja jb jc jd je jf jg jh ji")).corner(9, 4), 511);
     }
 
+    private static void promise6_corner_thoseElsewhereArent() {
+        ThiefTakers x = Told.of(Towns.corners(4) + "guard g a;guard h b;guard i b;thief s b 0;thief t c 0;thief u c 0;thief v a 0;");
+        int[] guards = {1, 6, 0, 0};
+        int[] thieves = {8, 1, 6, 0};
+        for (int corner = 0; corner < 4; corner++) {
+            Told.due("guards at " + corner, x.corner(corner, 2), guards[corner]);
+            Told.due("thieves at " + corner, x.corner(corner, 3), thieves[corner]);
+        }
+    }
+
+    private static void promise6_corner_nextAsLongAsOneLaneIsntBarred() {
+        ThiefTakers x = Told.of(Towns.corners(3) + "lane a b;steps a b;steps b a;steps c a;");
+        int[] barred = {9, 0, 1, 2, 3, 0, 3};
+        int[][] nexts = {{2, 1, 1}, {2, 1, 1}, {0, 1, 1}, {0, 0, 1}, {0, 0, 0}, {2, 1, 0}, {2, 1, 1}};
+        for (int k = 0; k < barred.length; k++) {
+            x.bar(barred[k]);
+            for (int corner = 0; corner < 3; corner++) {
+                Told.due("next to " + corner + " behind bar " + k, x.corner(corner, 4), nexts[k][corner]);
+            }
+        }
+    }
+
     private static void promise7_guard_noSuchOnes() {
         new Alike(Towns::busy).takes("guard", 0, 1, (x, guard) -> x.guard(guard, 0), -1);
         new Alike(Towns::full).takes("guard", 0, 2, (x, guard) -> x.guard(guard, 1), -1);
@@ -76,6 +98,19 @@ public final class TownBoundariesTest {
         Told.due("still none", x.guard(0, 1), -2);
         Told.due("still the first", x.guard(1, 1), 0);
         Told.due("he stays", x.guard(0, 0), 0);
+    }
+
+    private static void promise7_guard_hisAimIsAtFirstTheFirst() {
+        ThiefTakers x = Told.of(Towns.path(3) + "guard g a;beat g a b c;guard h c;beat h b a;guard i b;beat i c c c c c c c c;");
+        for (int guard = 0; guard < 3; guard++) {
+            Told.due("guard " + guard, x.guard(guard, 1), 0);
+        }
+        x.go(1);
+        Told.due("who is there goes on", x.guard(0, 1), 1);
+        Told.due("who comes there doesn't yet", x.guard(1, 1), 0);
+        x.go(1);
+        Told.due("but then", x.guard(1, 1) * 10 + x.guard(1, 0), 10);
+        Told.due("the same corner again is the next place", x.guard(2, 1) * 10 + x.guard(2, 0), 12);
     }
 
     private static void promise7_guard_howManyHeCaught() {
@@ -188,6 +223,15 @@ public final class TownBoundariesTest {
         Told.due("twice as much", Towns.worth("0-" + TRILLION + "-" + TRILLION), ERROR);
     }
 
+    private static void promise10_law_sumsOfThoseBelow0() {
+        Told.due("one less below", Towns.worth("(0-" + TRILLION + "+2)+(0-1)"), -999999999999L);
+        Told.due("just so much below", Towns.worth("(0-" + TRILLION + "+1)+(0-1)"), -1000000000000L);
+        Told.due("0 more below", Towns.worth("(0-" + TRILLION + ")+0"), -1000000000000L);
+        Told.due("one more below", Towns.worth("(0-" + TRILLION + "+1)+(0-2)"), ERROR);
+        Told.due("just so much", Towns.worth("(0-1)+" + TRILLION + "+1"), 1000000000000L);
+        Told.due("one more", Towns.worth("(0-1)+" + TRILLION + "+2"), ERROR);
+    }
+
     private static void promise10_law_productsUpTo10ToThe12() {
         String million = "(1000*1000)";
         Told.due("one less", Towns.worth("(1000*1000-1)*(1000*1000+1)"), 999999999999L);
@@ -245,6 +289,17 @@ public final class TownBoundariesTest {
             Told.due("4" + signs[k] + "5", Towns.worth("4" + signs[k] + "5"), less[k]);
             Told.due("5" + signs[k] + "5", Towns.worth("5" + signs[k] + "5"), same[k]);
             Told.due("6" + signs[k] + "5", Towns.worth("6" + signs[k] + "5"), more[k]);
+        }
+    }
+
+    private static void promise10_law_whatBindsTighterComesFirst() {
+        String[] told = {"1 or 0 and 0", "1 or 1 and 0", "0 and 0 or 1", "(1 or 0) and 0", "(0 or 1)*3", "(0 and 1 or 1)*3", "not 0 and 0",
+            "not 1 or 1", "not 0=1", "(not 0)=1", "not 2>1", "1+1=2", "2=1+1", "1<2 and 2<1 or 1", "2*3=6", "7-2-1", "7-(2-1)", "8/4/2",
+            "8/(4/2)", "8/4*2", "2*7/3", "2*(7/3)", "1+2*3", "(1+2)*3", "10-2*3+1", "7-6/2", "(1<2)+(2<3)", "1<2+2", "not 1<2", "not not 7",
+            "1 and not 0", "0 or not 0 and 0", "3-2-1 or 0", "9-3*3 and 1"};
+        long[] due = {1, 1, 1, 0, 3, 3, 0, 1, 1, 1, 0, 1, 1, 1, 1, 4, 6, 1, 4, 4, 4, 4, 7, 9, 5, 4, 2, 1, 0, 1, 1, 0, 0, 0};
+        for (int k = 0; k < told.length; k++) {
+            Told.due(told[k], Towns.worth(told[k]), due[k]);
         }
     }
 
@@ -332,6 +387,25 @@ public final class TownBoundariesTest {
         x.bar(1);
         Told.due("no more barred", x.send(0, 2) && x.send(0, 3), true);
         Told.due("along steps", x.send(0, 0), true);
+    }
+
+    private static void promise11_send_heKeepsHisAim() {
+        ThiefTakers x = Told.of(Towns.path(4) + "guard g a;beat g b d;");
+        x.go(2);
+        Told.due("he was at b, and goes to d", x.guard(0, 1) * 10 + x.guard(0, 0), 12);
+        Told.due("sent back to b", x.send(0, 1), true);
+        Told.due("d is still his aim", x.guard(0, 1), 1);
+        Told.due("sent back to a", x.send(0, 0), true);
+        x.go(1);
+        Told.due("by b", x.guard(0, 1) * 10 + x.guard(0, 0), 11);
+        x.go(2);
+        Told.due("to d", x.guard(0, 1) * 10 + x.guard(0, 0), 13);
+        x = Told.of(Towns.path(2) + "guard g a;guard h a;beat h b a;");
+        x.send(0, 1);
+        x.send(1, 1);
+        x.go(3);
+        Told.due("without a beat he stays where he was sent", x.guard(0, 0), 1);
+        Told.due("sent to his aim: the next place is", x.guard(1, 1) * 10 + x.guard(1, 0), 10);
     }
 
     private static void promise11_send_refusedItLeavesAll() {
@@ -540,6 +614,50 @@ public final class TownBoundariesTest {
         }
     }
 
+    private static void promise14_go_aGripOf1And99() {
+        boolean[] seen = new boolean[100];
+        for (int seed = 0; seed < 2000; seed++) {
+            int number = (int) numberOf(seed);
+            boolean edge = number <= 1 || number >= 98;
+            if (!edge || seen[number]) {
+                continue;
+            }
+            seen[number] = true;
+            for (int grip : new int[] {1, 99}) {
+                ThiefTakers x = Told.of("corner a 0 9;guard g a;thief t a 1;seed " + seed + ";grip " + grip + ";");
+                x.go(1);
+                Told.due(number + " against " + grip, x.count(6), number < grip ? 1 : 0);
+            }
+        }
+        for (int number : new int[] {0, 1, 98, 99}) {
+            Told.due("there is a seed for " + number, seen[number], true);
+        }
+    }
+
+    private static void promise14_go_aNumberOnlyForThoseWhoMeetAndAreFree() {
+        // Each guard asks each thief who is there and not caught yet: so many numbers are drawn, in this order.
+        for (int seed : new int[] {0, 3, 14, 15, 92, 65, 35}) {
+            ThiefTakers x = Told.of("corner a 0 0;corner b 0 0;guard g a;guard h b;guard i a;thief s a 0;thief t b 0;thief u a 0;"
+                    + "thief v a 0;law stir 0;grip 50;seed " + seed + ";");
+            long last = seed;
+            int[] by = {-2, -2, -2, -2};
+            for (int hour = 0; hour < 3; hour++) {
+                for (int guard = 0; guard < 3; guard++) {
+                    for (int thief = 0; thief < 4; thief++) {
+                        if (by[thief] == -2 && guard == 1 == (thief == 1)) {
+                            last = (last * 1103515245L + 12345L) % 2147483648L;
+                            by[thief] = last / 65536 % 100 < 50 ? guard : -2;
+                        }
+                    }
+                }
+                x.go(1);
+                for (int thief = 0; thief < 4; thief++) {
+                    Told.due("seed " + seed + ", hour " + hour + ", thief " + thief, x.thief(thief, 3), by[thief]);
+                }
+            }
+        }
+    }
+
     private static void promise14_go_grip0And100() {
         ThiefTakers x = Told.of("corner a 0 9;guard g a;thief t a 1;grip 0;");
         x.go(200);
@@ -620,6 +738,36 @@ public final class TownBoundariesTest {
         }
     }
 
+    /** With grip 0 and 100 no numbers are drawn: what comes as it goes comes by go, too. */
+    private static void promise15_ahead_isWhatComesOfAFullTown() {
+        for (String grip : new String[] {"grip 0;", "grip 100;"}) {
+            for (int n : new int[] {1, 2, 3, 9, 60, 200}) {
+                ThiefTakers x = Told.of(Towns.FULL.replace("grip 30;", grip) + "law take bold+hour/2;");
+                x.go(3);
+                ThiefTakers then = Told.of(Towns.FULL.replace("grip 30;", grip) + "law take bold+hour/2;");
+                then.go(3);
+                then.go(n);
+                Told.due("caught", x.ahead(n, 0, 0), then.count(6));
+                Told.due("loot of all", x.ahead(n, 2, 0), then.count(7));
+                for (int thief = 0; thief < 4; thief++) {
+                    Told.due("had by " + thief, x.ahead(n, 1, thief), then.thief(thief, 2));
+                    Told.due("thief " + thief, x.ahead(n, 4, thief), then.thief(thief, 0));
+                }
+                for (int guard = 0; guard < 3; guard++) {
+                    Told.due("guard " + guard, x.ahead(n, 3, guard), then.guard(guard, 0));
+                }
+            }
+        }
+    }
+
+    private static void promise15_ahead_askedAllStays() {
+        Alike busy = new Alike(Towns::busy);
+        for (int what = 0; what <= 4; what++) {
+            int asked = what;
+            busy.asked("ahead of " + what, x -> x.ahead(200, asked, 0));
+        }
+    }
+
     private static void promise15_ahead_asItGoesAGripOf50Holds() {
         String town = "corner a 0 9;guard g a;thief t a 1;grip ";
         int[] grips = {0, 1, 49, 50, 51, 99, 100};
@@ -654,6 +802,12 @@ public final class TownBoundariesTest {
         Told.due("he is", x.caught(0), 0);
         Told.due("grip 49: never", Told.of("corner a 0 0;guard g a;thief t a 0;grip 49;").caught(0), -2);
         Told.due("grip 50: in one", Told.of("corner a 0 0;guard g a;thief t a 0;grip 50;").caught(0), 1);
+    }
+
+    private static void promise16_caught_askedAllStays() {
+        Alike busy = new Alike(Towns::busy);
+        busy.asked("caught of one free", x -> x.caught(0));
+        busy.asked("caught of one caught", x -> x.caught(1));
     }
 
     private static void promise17_far_noSuchOnes() {
@@ -718,6 +872,16 @@ public final class TownBoundariesTest {
         Told.due("all but a", x.reach(9), 1022);
         Told.due("a alone", x.reach(0), 1);
         Told.due("along steps only", Told.of(Towns.corners(3) + "steps b a;steps b c;").reach(0), 1);
+    }
+
+    private static void promise20_parts_thatLeadToEachOtherEitherWay() {
+        Told.due("a and c, b alone", Told.of(Towns.corners(3) + "lane a c;").parts(), 2);
+        Told.due("a and d, b and c", Told.of(Towns.corners(4) + "lane a d;lane c b;").parts(), 2);
+        Told.due("one way on", Told.of(Towns.corners(2) + "steps a b;").parts(), 2);
+        Told.due("one way back", Told.of(Towns.corners(2) + "steps b a;").parts(), 2);
+        Told.due("either way", Told.of(Towns.corners(2) + "steps b a;steps a b;").parts(), 1);
+        Told.due("a third between", Told.of(Towns.corners(3) + "steps a c;steps c b;").parts(), 3);
+        Told.due("a ring of three", Told.of(Towns.corners(3) + "steps a c;steps c b;steps b a;").parts(), 1);
     }
 
     private static void promise20_parts_0To10() {
