@@ -122,6 +122,38 @@ public final class ChaseBoundariesTest {
         Told.due("one of more corners", x.chase(1, 2), 9);
     }
 
+    private static void promise21_chase_ofTheTextThatIsNow() {
+        ThiefTakers x = Told.of(Towns.corners(3) + "guard g a;");
+        Told.due("three alone", x.takers(), 3);
+        Told.due("never", x.chase(1, 1), -2);
+        x.text(0);
+        Told.tell(x, Towns.corners(4) + "guard g a;");
+        Told.due("four alone", x.takers(), -2);
+        Told.due("never", x.chase(1, 3), -2);
+        x.text(0);
+        Told.tell(x, Towns.corners(2) + "guard g a;");
+        Told.due("two alone", x.takers(), 2);
+        Told.due("he is", x.chase(1, 0), 0);
+        x = Told.of(Towns.corners(3) + "guard g c;");
+        Told.due("never from c to a", x.chase(1, 0), -2);
+        x.text(0);
+        Told.tell(x, Towns.corners(4) + "guard g d;");
+        Told.due("never from d to a", x.chase(1, 0), -2);
+        x = Told.of(RING_OF_STEPS + "guard g a;");
+        Told.due("a ring of steps", x.chase(1, 5), -2);
+        Told.due("takers of it", x.takers(), 2);
+        x.text(0);
+        Told.tell(x, STAR + "guard g a;");
+        Told.due("a star", x.chase(1, 5), 1);
+        Told.due("takers of it", x.takers(), 1);
+        x.text(0);
+        Told.tell(x, Towns.path(10) + "guard g a;");
+        Told.due("a path", x.chase(1, 5), 9);
+        x.text(0);
+        Told.tell(x, Towns.corners(10) + Towns.lanes("ad be cf dg eh fi gj ah bi cj") + "guard g a;");
+        Told.due("a ring the other way round", x.chase(1, 5), -2);
+    }
+
     private static void promise21_chase_askedAllStays() {
         Alike full = new Alike(Towns::full);
         full.asked("chase", x -> x.chase(7, 9));
@@ -186,6 +218,13 @@ public final class ChaseBoundariesTest {
         Told.due("stays at g, too", x.firstGo(7, 3, 2), 6);
     }
 
+    private static void promise22_firstGo_notAgainstSteps() {
+        // From a he would take him as soon as from e, but steps lead from a to f alone.
+        ThiefTakers x = Told.of(Towns.corners(6) + "lane c d;steps e d;steps a d;steps f e;steps a f;guard g f;");
+        Told.due("in three", x.chase(1, 3), 3);
+        Told.due("to e", x.firstGo(1, 3, 0), 4);
+    }
+
     private static void promise22_firstGo_ofThreeTheFirstRow() {
         ThiefTakers x = Told.of(PETERSEN + "guard g a;guard h a;guard i a;");
         for (int corner : new int[] {2, 3, 6, 7, 8, 9}) {
@@ -233,6 +272,14 @@ public final class ChaseBoundariesTest {
         Told.due("to a he is taken at once, at b in a round", x.flee(1, 1), 1);
         x = Told.of(Towns.corners(1) + "corner b 0 0;corner c 0 0;" + Towns.lanes("ab ac") + "guard g a;");
         Told.due("stays at c", x.flee(1, 2), 2);
+    }
+
+    private static void promise23_flee_whomNoneChasesGoesToTheFirst() {
+        ThiefTakers x = Told.of(Towns.corners(6) + "lane b c;steps c d;lane f d;steps a f;guard g a;");
+        int[] due = {0, 1, 1, 3, 4, 3};
+        for (int corner = 0; corner < 6; corner++) {
+            Told.due("from " + corner, x.flee(0, corner), due[corner]);
+        }
     }
 
     private static void promise23_flee_toTheFirstAndTheLastCorner() {
@@ -386,6 +433,20 @@ public final class ChaseBoundariesTest {
         Told.due("nowhere, if he comes by himself", Told.of(Towns.corners(2) + "steps a b;").look(1), 0);
     }
 
+    private static void promise27_look_nAtMost() {
+        // To look into a and b would do as well, and these are less bits than c, but they are two.
+        ThiefTakers x = Told.of(Towns.corners(3) + Towns.steps("ab ca"));
+        Told.due("two nights", x.sweep(1), 2);
+        Told.due("c", x.look(1), 4);
+        Told.due("by two: nowhere, then a and b", x.look(2), 0);
+        for (int many = 2; many <= 10; many++) {
+            x = Told.of(Towns.path(many));
+            for (int n = 1; n <= 10; n++) {
+                Told.due(n + " at most on a path of " + many, Integer.bitCount(x.look(n)) <= n, true);
+            }
+        }
+    }
+
     private static void promise28_dark_1To10() {
         new Alike(ThiefTakers::new).leaves("no corners", ThiefTakers::dark, 0);
         for (int many = 1; many <= 10; many++) {
@@ -519,6 +580,19 @@ public final class ChaseBoundariesTest {
         Told.due("none back", x.wall(2, 0), 0);
         x.bar(0);
         Told.due("those barred aren't counted", x.wall(0, 2), 0);
+    }
+
+    private static void promise32_wall_onlyTheThinnestPlaceCounts() {
+        ThiefTakers x = Told.of(Towns.corners(7) + Towns.lanes("ab ac bc bd cd de ef eg fg"));
+        Told.due("between d and e", x.wall(0, 6), 1);
+        Told.due("and back", x.wall(6, 0), 1);
+        Told.due("ahead of it", x.wall(0, 3), 2);
+        Told.due("behind it", x.wall(4, 6), 2);
+        Told.due("among three", x.wall(1, 2), 3);
+        x = Told.of(Towns.corners(4) + "steps a b;steps b a;steps b c;steps a c;steps c d;steps d c;steps d a;");
+        Told.due("one to d", x.wall(0, 3), 1);
+        Told.due("one back, by no way through c", x.wall(3, 0), 1);
+        Told.due("to c", x.wall(0, 2), 2);
     }
 
     private static void promise32_wall_asManyAsThereMayBe() {

@@ -386,6 +386,39 @@ public final class ImageBoundariesTest {
         }
     }
 
+    private static void promise47_back_ofEachGuardAndThief() {
+        // Guard and thief of that number meet in the second hour, where the others are alone.
+        for (int guard = 0; guard < 3; guard++) {
+            for (int thief = 0; thief < 4; thief++) {
+                StringBuilder text = new StringBuilder(Towns.corners(10) + Towns.lanes("ba bc"));
+                for (int k = 0; k < 3; k++) {
+                    text.append("guard ").append("ghi".charAt(k)).append(k == guard ? " a;" : " d;");
+                    text.append("beat ").append("ghi".charAt(k)).append(k == guard ? " a b c;" : " d d;");
+                }
+                for (int k = 0; k < 4; k++) {
+                    text.append("thief ").append("stuv".charAt(k)).append(k == thief ? " c 1;" : " e 1;");
+                }
+                ThiefTakers x = Told.of(text + "law stir 0;");
+                x.go(1);
+                String was = Whole.IS.of(x);
+                Told.due("at b", x.guard(guard, 0) * 10 + x.guard(guard, 1), 11);
+                x.keep();
+                x.go(1);
+                Told.due("caught", x.thief(thief, 3) * 10 + x.guard(guard, 2), guard * 10 + 1);
+                Told.due("on his way to a place behind", x.go(1) * 10 + x.guard(guard, 1), 30);
+                x.back();
+                Told.same("guard " + guard + ", thief " + thief, Whole.IS.of(x), was);
+                Told.due("to be caught", x.caught(thief), 1);
+                x.go(1);
+                x.keep();
+                x.go(2);
+                x.back();
+                Told.due("he is", x.caught(thief) * 1000 + x.thief(thief, 3) * 100 + x.guard(guard, 2) * 10 + x.guard(guard, 1),
+                        guard * 100 + 12);
+            }
+        }
+    }
+
     private static void promise47_back_factsStay() {
         ThiefTakers x = Told.of("corner a 0 9;corner b 0 9;thief t a 1;");
         x.see(1, 0, 0, true);

@@ -96,6 +96,16 @@ public final class OddsBoundariesTest {
         Told.due("the near one is a's own", x.match(0) * 10 + x.match(1), 10);
     }
 
+    private static void promise34_match_farFromTheGuardToTheThief() {
+        ThiefTakers x = Told.of(Towns.corners(5) + Towns.steps("ab bc cd de ea") + "guard g a;thief s e 0;thief t c 0;");
+        Told.due("e is four from a, c two", x.match(0) * 100 + x.match(4), 102);
+        x = Told.of(Towns.corners(3) + "steps b a;steps a c;guard g a;guard h c;thief s b 0;thief t c 0;");
+        Told.due("99 and 0, not 1 and 99", x.match(0) * 10000 + x.match(1) * 1000 + x.match(4), 1099);
+        x = Told.of(Towns.corners(2) + "steps b a;guard g a;thief s b 0;");
+        Told.due("none leads there", x.match(4), 99);
+        Told.due("he has him all the same", x.match(0), 0);
+    }
+
     private static void promise34_match_whoIsCaughtIsNone() {
         ThiefTakers x = Told.of("corner a 0 0;guard g a;guard h a;thief s a 0;");
         Told.due("free", x.match(0), 0);
@@ -238,6 +248,21 @@ public final class OddsBoundariesTest {
         x.strike(0);
         Told.due("those that strike count too", x.see(1, 0, 0, true), 23);
         Told.due("and no more", x.see(1, 0, 0, true), -1);
+    }
+
+    private static void promise38_see_ofThatThiefAtThatCorner() {
+        for (int thief = 0; thief < 4; thief++) {
+            for (int corner = 0; corner < 10; corner++) {
+                for (boolean is : new boolean[] {true, false}) {
+                    ThiefTakers x = Told.of(Towns.corners(10) + "thief s a 0;thief t d 0;thief u g 0;thief v j 0;law stir 0;");
+                    x.see(60, thief, corner, is);
+                    boolean so = corner == thief * 3 == is;
+                    for (int asked = 0; asked < 4; asked++) {
+                        Told.due(thief + (is ? " at " : " not at ") + corner + ", asked of " + asked, x.bolds(asked), so ? 1023 : 0);
+                    }
+                }
+            }
+        }
     }
 
     private static void promise38_see_theFirstAndTheLastHourCount() {
@@ -418,6 +443,20 @@ public final class OddsBoundariesTest {
             x.strike(0);
             x.known(-1);
             Told.due("gone to b, grip " + grip, x.bolds(0), grip >= 50 ? 0 : 1023);
+        }
+    }
+
+    private static void promise41_bolds_whatIsTriedOfOneIsntLeft() {
+        for (int thief = 0; thief < 4; thief++) {
+            ThiefTakers x = Told.of(Towns.FULL);
+            int had = x.ahead(3, 1, thief);
+            int loot = x.ahead(9, 2, 0);
+            x.bolds(thief);
+            Told.due("bolds of " + thief + ", had", x.ahead(3, 1, thief), had);
+            x.ask(thief, 1);
+            Told.due("ask of " + thief + ", had", x.ahead(3, 1, thief), had);
+            Told.due("ask of " + thief + ", loot", x.ahead(9, 2, 0), loot);
+            Told.due("bold of " + thief, x.thief(thief, 1), thief + 1);
         }
     }
 

@@ -114,6 +114,27 @@ public final class TextBoundariesTest {
         }
     }
 
+    private static void promise3_text_noByteBehindTheFirstNCounts() {
+        String text = "corner abc 1 345;corner de 6 78;lane abc de;seed 0099999;law take 10<>9 and(2)>=1 or not bold;grip 100;";
+        for (int n = 0; n <= text.length(); n++) {
+            ThiefTakers x = new ThiefTakers();
+            Told.feed(x, text);
+            ThiefTakers alone = new ThiefTakers();
+            Told.feed(alone, text.substring(0, n));
+            Told.due("lines of the first " + n, x.text(n), alone.text(n));
+            Told.due("fault of the first " + n, x.fault(0), alone.fault(0));
+            Told.due("its place of the first " + n, x.fault(1), alone.fault(1));
+        }
+        String full = text + " ".repeat(700 - text.length() - 11) + "law stir 99";
+        int[] places = {-1, 689, 689, 692, 693, 693, 693, 693, 697, 698, 699, 700};
+        for (int n = 689; n <= 700; n++) {
+            ThiefTakers x = new ThiefTakers();
+            Told.feed(x, full);
+            Told.due("the first " + n + " of 700", x.text(n), n == 689 ? 6 : -1);
+            Told.due("the place in the first " + n, x.fault(1), places[n - 689]);
+        }
+    }
+
     private static void promise3_text_notSoManyBytesOrBelow0() {
         Alike busy = new Alike(Towns::busy);
         for (int n : Edges.beyond(0, 20)) {
@@ -569,6 +590,33 @@ public final class TextBoundariesTest {
             Told.fault(1, "law take ^" + bad);
             Told.fault(1, "law take 1 ^" + bad);
             Told.fault(1, "law take (1 ^" + bad);
+        }
+    }
+
+    private static void promise4_fault_aTokenThatIsNoneInPlaceOfAWord() {
+        String[] bads = {"{", "}", "|", "~", "`", "@", "\u007f", "/", ":", "A", "Z", "{a", "`a", "zzzzzzz", "0", "("};
+        for (String place : WORD_PLACES) {
+            for (String bad : bads) {
+                Told.fault(1, place.substring(2).replace("W", "^" + bad));
+            }
+        }
+        Told.fault(1, "corner a^{ 1 2;");
+        Told.fault(1, "corner a^` 1 2;");
+        Told.fault(1, "corner a 1^: 2;");
+        Told.fault(1, "corner a 1^/ 2;");
+    }
+
+    private static void promise4_fault_aNumberIsNoSignAndNoWord() {
+        for (int number = 0; number <= 300; number++) {
+            Told.fault(1, "grip 1 ^" + number);
+            Told.fault(1, "^" + number + " a 1 2;");
+            Told.fault(1, TWO + "guard g a;beat g a ^" + number);
+            Told.fault(1, "law take 1 ^" + number + " 1;");
+            Told.fault(1, "law take (1 ^" + number);
+            Told.fault(1, "law ^" + number + " 1;");
+            Told.due("number " + number, Towns.worth("" + number), number);
+            Told.due("1 and number " + number, Towns.worth("1+" + number), number + 1);
+            Told.due("number " + number + " in brackets", Towns.worth("(" + number + ")"), number);
         }
     }
 

@@ -83,6 +83,15 @@ public final class TownBoundariesTest {
         }
     }
 
+    private static void promise6_corner_nextByTwoLanesIsAsByOne() {
+        for (String lanes : new String[] {"steps a b;lane b a;", "steps b a;lane a b;", "lane a b;steps a b;", "lane a b;steps b a;",
+            "steps a b;steps b a;", "steps a b;steps b a;lane a b;", "lane b a;steps b a;steps a b;"}) {
+            ThiefTakers x = Told.of(Towns.corners(2) + lanes);
+            Told.due("next to a by " + lanes, x.corner(0, 4), 2);
+            Told.due("next to b by " + lanes, x.corner(1, 4), 1);
+        }
+    }
+
     private static void promise7_guard_noSuchOnes() {
         new Alike(Towns::busy).takes("guard", 0, 1, (x, guard) -> x.guard(guard, 0), -1);
         new Alike(Towns::full).takes("guard", 0, 2, (x, guard) -> x.guard(guard, 1), -1);
@@ -194,6 +203,19 @@ public final class TownBoundariesTest {
             ThiefTakers x = Told.of(town + "law " + rules[told] + " 7;");
             for (int asked = 0; asked < 3; asked++) {
                 Told.due("law " + asked + " of " + rules[told], x.law(asked, 0, 0), asked == told ? 7 : ERROR);
+            }
+        }
+    }
+
+    private static void promise10_law_eachIsWorkedOutByItself() {
+        String[] laws = {"not 0", "5", "1+2*3", "(not 5)", "7<8", "not not 3", "9-4", "(2)"};
+        long[] worth = {1, 5, 7, 0, 1, 1, 5, 2};
+        for (int first = 0; first < laws.length; first++) {
+            for (int second = 0; second < laws.length; second++) {
+                ThiefTakers x = Told.of("corner a 0 0;thief t a 0;law stir " + laws[first] + ";law take " + laws[second] + ";law dread 4;");
+                Told.due("stir " + laws[first], x.law(2, 0, 0), worth[first]);
+                Told.due("take " + laws[second] + " behind stir " + laws[first], x.law(1, 0, 0), worth[second]);
+                Told.due("dread 4 behind both", x.law(0, 0, 0), 4);
             }
         }
     }
@@ -552,6 +574,20 @@ public final class TownBoundariesTest {
         Told.due("there", x.guard(0, 0), 2);
     }
 
+    private static void promise14_go_lessFarAlongStepsNotAgainstThem() {
+        ThiefTakers x = Told.of(Towns.corners(5) + Towns.steps("ab bc cd de ea") + "guard g a;beat g e a;");
+        for (int hour = 1; hour <= 10; hour++) {
+            x.go(1);
+            Told.due("round the ring in hour " + hour, x.guard(0, 0), hour % 5);
+        }
+        // From b to e it is one lane by c or d, but a, to which a lane leads too, is as far from e as b is.
+        x = Told.of(Towns.corners(5) + "lane a b;lane b d;steps c b;steps c e;lane d e;steps e a;guard g b;beat g e;");
+        x.go(1);
+        Told.due("by d", x.guard(0, 0), 3);
+        x.go(1);
+        Told.due("at e", x.guard(0, 0), 4);
+    }
+
     private static void promise14_go_theFirstOfSeveralCornersThatAreLessFar() {
         ThiefTakers x = Told.of(Towns.corners(5) + Towns.lanes("ed dc cb ea ab") + "guard g e;beat g b;");
         x.go(1);
@@ -856,6 +892,31 @@ public final class TownBoundariesTest {
         x.bar(8);
         Told.due("there is none", x.way(0, 9, 0), -2);
         Told.due("there is none, k 99", x.way(0, 9, 99), -2);
+    }
+
+    private static void promise18_way_alongStepsNotAgainstThem() {
+        ThiefTakers x = Told.of(Towns.corners(4) + Towns.steps("ab bc cd da"));
+        for (int from = 0; from < 4; from++) {
+            for (int to = 0; to < 4; to++) {
+                int lanes = (to - from + 4) % 4;
+                for (int k = 0; k <= 5; k++) {
+                    Told.due("from " + from + " to " + to + ", k " + k, x.way(from, to, k), k <= lanes ? (from + k) % 4 : -2);
+                }
+            }
+        }
+    }
+
+    private static void promise18_way_eachTimeToTheFirst() {
+        ThiefTakers x = Told.of(Towns.corners(6) + Towns.lanes("fe fd ec db ca ba dc"));
+        int[] due = {5, 3, 1, 0, -2};
+        for (int k = 0; k < due.length; k++) {
+            Told.due("by d ahead of e, by b ahead of c, k " + k, x.way(5, 0, k), due[k]);
+        }
+        x.bar(5);
+        int[] barred = {5, 3, 2, 0, -2};
+        for (int k = 0; k < barred.length; k++) {
+            Told.due("from b none leads to a now, k " + k, x.way(5, 0, k), barred[k]);
+        }
     }
 
     private static void promise19_reach_noSuchCorner() {
