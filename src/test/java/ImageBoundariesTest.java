@@ -221,37 +221,42 @@ public final class ImageBoundariesTest {
 
     private static void promise45_undo_20OfAllKinds() {
         for (int times : new int[] {19, 20, 21, 22, 23, 40}) {
-            ThiefTakers x = Told.of(Towns.path(5) + "guard g a;guard h e;");
-            String[] was = new String[times + 1];
-            for (int k = 0; k < times; k++) {
-                was[k] = deedsOf(x);
-                switch (k * 7 % 5) {
-                    case 0 -> x.send(0, 1 - x.guard(0, 0));
-                    case 1 -> x.bar(2);
-                    case 2 -> x.drop(k % 5, k + 1);
-                    case 3 -> x.send(1, 7 - x.guard(1, 0));
-                    default -> x.bar(1);
-                }
-            }
-            Told.due("can be undone of " + times, x.count(12), Math.min(times, 20));
-            for (int k = times - 1; k >= Math.max(0, times - 20); k--) {
-                Told.due("undone " + k + " of " + times, x.undo(), k - Math.max(0, times - 20));
-                Told.same("as it was ahead of " + k + " of " + times, deedsOf(x), was[k]);
+            ThiefTakers x = withDeeds(times);
+            int forgotten = Math.max(0, times - 20);
+            Told.due("can be undone of " + times, x.count(12), times - forgotten);
+            for (int left = times - 1; left >= forgotten; left--) {
+                Told.due("undone " + left + " of " + times, x.undo(), left - forgotten);
+                Told.same("as it was ahead of " + left + " of " + times, deedsOf(x), deedsOf(withDeeds(left)));
             }
             Told.due("no more", x.undo(), -1);
         }
     }
 
-    /** What calls can do that can be undone. */
+    /** A town in which so many things were done by call, of all kinds in turn. */
+    private static ThiefTakers withDeeds(int times) {
+        ThiefTakers x = Told.of(Towns.path(5) + "guard g a;guard h e;");
+        for (int k = 0; k < times; k++) {
+            switch (k * 7 % 5) {
+                case 0 -> x.send(0, 1 - x.guard(0, 0));
+                case 1 -> x.bar(2);
+                case 2 -> x.drop(k % 5, k + 1);
+                case 3 -> x.send(1, 7 - x.guard(1, 0));
+                default -> x.bar(1);
+            }
+        }
+        return x;
+    }
+
+    /** All that was done there. */
     private static String deedsOf(ThiefTakers x) {
         StringBuilder all = new StringBuilder();
-        for (int guard = 0; guard < x.count(2); guard++) {
+        for (int guard = 0; guard < 2; guard++) {
             all.append("guard ").append(x.guard(guard, 0)).append('\n');
         }
-        for (int lane = 0; lane < x.count(1); lane++) {
+        for (int lane = 1; lane <= 2; lane++) {
             all.append("lane ").append(x.lane(lane, 3)).append('\n');
         }
-        for (int corner = 0; corner < x.count(0); corner++) {
+        for (int corner = 0; corner < 5; corner++) {
             all.append("corner ").append(x.corner(corner, 1)).append(" next to ").append(x.corner(corner, 4)).append('\n');
         }
         return all.toString();
@@ -361,29 +366,37 @@ public final class ImageBoundariesTest {
     private static void promise47_back_allOfAFullTown() {
         for (String grip : new String[] {"grip 30;", "grip 70;"}) {
             String text = Towns.FULL.replace("grip 30;", grip);
-            ThiefTakers x = Told.of(text);
-            x.go(4);
-            x.bar(7);
-            x.bar(19);
-            String was = Whole.IS.of(x).replace("count 12 2", "count 12 0");
-            x.keep();
-            x.go(60);
-            for (int lane = 0; lane < 20; lane++) {
-                x.bar(lane);
-            }
-            for (int corner = 0; corner < 10; corner++) {
-                x.drop(corner, 100 + corner);
-            }
-            Told.due("back", x.back(), 4);
-            Told.same("as it was", Whole.IS.of(x), was);
-            ThiefTakers stayed = Told.of(text);
-            stayed.go(4);
-            stayed.bar(7);
-            stayed.bar(19);
-            Told.same("what comes", Whole.COMES.of(x), Whole.COMES.of(stayed));
-            x.back();
-            Told.same("back once more", Whole.IS.of(x), was);
+            String was = Whole.IS.of(inHour4(text)).replace("count 12 2", "count 12 0");
+            String comes = Whole.COMES.of(inHour4(text));
+            Told.same("as it was", Whole.IS.of(awayAndBack(text)), was);
+            Told.same("what comes", Whole.COMES.of(awayAndBack(text)), comes);
+            ThiefTakers x = awayAndBack(text);
+            x.go(9);
+            Told.due("back once more", x.back(), 4);
+            Told.same("as it was once more", Whole.COMES.of(x), comes);
         }
+    }
+
+    private static ThiefTakers inHour4(String text) {
+        ThiefTakers x = Told.of(text);
+        x.go(4);
+        x.bar(7);
+        x.bar(19);
+        return x;
+    }
+
+    private static ThiefTakers awayAndBack(String text) {
+        ThiefTakers x = inHour4(text);
+        x.keep();
+        x.go(60);
+        for (int lane = 0; lane < 20; lane++) {
+            x.bar(lane);
+        }
+        for (int corner = 0; corner < 10; corner++) {
+            x.drop(corner, 100 + corner);
+        }
+        Told.due("back", x.back(), 4);
+        return x;
     }
 
     private static void promise47_back_ofEachGuardAndThief() {
