@@ -8,7 +8,7 @@ public final class ChaseBoundariesTest {
     private static final String PETERSEN = Towns.corners(10) + Towns.lanes("ab bc cd de ea af bg ch di ej fh hj jg gi if");
 
     public static void main(String[] args) {
-        Promises.run(ChaseBoundariesTest.class, 21, 32);
+        Promises.run(ChaseBoundariesTest.class, 21, 32, args);
     }
 
     /** All the corners next to each other; 20 lanes do for six. */

@@ -3,7 +3,7 @@ import java.util.function.ToLongFunction;
 /** Promises 43 to 48 at their edges: chance, what is tried otherwise, undoing, images, counts. */
 public final class ImageBoundariesTest {
     public static void main(String[] args) {
-        Promises.run(ImageBoundariesTest.class, 43, 48);
+        Promises.run(ImageBoundariesTest.class, 43, 48, args);
     }
 
     private static void promise43_chance_seed0To2147483647() {

@@ -3,7 +3,7 @@ public final class OddsBoundariesTest {
     private static final String STAR = Towns.corners(10) + Towns.lanes("ab ac ad ae af ag ah ai aj");
 
     public static void main(String[] args) {
-        Promises.run(OddsBoundariesTest.class, 33, 42);
+        Promises.run(OddsBoundariesTest.class, 33, 42, args);
     }
 
     private static void promise33_drunk_noSuchOnes() {

@@ -19,8 +19,18 @@ final class Promises {
     private Promises() {
     }
 
-    /** Runs the class's tests, which are those of the promises first to last: none of these may lack one. */
-    static void run(Class<?> tests, int first, int last) {
+    /** Runs the class's tests, which are those of the promises first to last; or only those with a name that starts as asked. */
+    static void run(Class<?> tests, int first, int last, String... asked) {
+        if (asked.length == 0) {
+            runAll(tests, first, last);
+        } else {
+            runAsked(tests, asked);
+        }
+        Told.end();
+    }
+
+    /** None of the promises may lack a test. */
+    private static void runAll(Class<?> tests, int first, int last) {
         Set<Integer> lacking = new TreeSet<>();
         for (int promise = first; promise <= last; promise++) {
             lacking.add(promise);
@@ -33,7 +43,21 @@ final class Promises {
         }
         Told.inTest("");
         Told.due("promises without a test: " + lacking, lacking.size(), 0);
-        Told.end();
+    }
+
+    private static void runAsked(Class<?> tests, String[] asked) {
+        for (String start : asked) {
+            int many = 0;
+            for (Method test : testsOf(tests)) {
+                if (test.getName().startsWith(start)) {
+                    System.out.println(test.getName());
+                    runOne(test);
+                    many++;
+                }
+            }
+            Told.inTest("");
+            Told.due("there is a test that starts as " + start, many > 0, true);
+        }
     }
 
     private static List<Method> testsOf(Class<?> tests) {

@@ -12,7 +12,7 @@ public final class TextBoundariesTest {
         "0 " + TWO + "thief W a 1;", "4 " + TWO + "thief t W 1;"};
 
     public static void main(String[] args) {
-        Promises.run(TextBoundariesTest.class, 1, 5);
+        Promises.run(TextBoundariesTest.class, 1, 5, args);
     }
 
     private static void promise1_newObject_hasATextWithoutLines() {

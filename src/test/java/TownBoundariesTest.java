@@ -4,7 +4,7 @@ public final class TownBoundariesTest {
     private static final String TRILLION = "1000*1000*1000*1000";
 
     public static void main(String[] args) {
-        Promises.run(TownBoundariesTest.class, 6, 20);
+        Promises.run(TownBoundariesTest.class, 6, 20, args);
     }
 
     private static void promise6_corner_noSuchCorner() {
